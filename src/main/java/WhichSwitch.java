@@ -31,7 +31,7 @@ public final class WhichSwitch {
     private final Reader reader = new Reader();
     private final Machine machine = new Machine();
     private final SumSet sumSet = new SumSet();
-    /** What each HOUSE shows by each set of FUSES, at set * MOST_HOUSES + HOUSE; filled anew by each call that needs it. */
+    /** What each HOUSE shows by each set of FUSES, at set * MOST_HOUSES + HOUSE: kept for no longer than a call. */
     private final int[] shows = new int[FUSE_SETS * MOST_HOUSES];
     /** What THE LAW has said within one call, so that no E is worked out twice for the same values. */
     private final int[] said = new int[MOST_LAMPS * ROWS];
@@ -62,8 +62,9 @@ public final class WhichSwitch {
             sheets[i] = new Sheet();
         }
         reader.fill(FIRST_LAW);
-        reader.faultOf(texts[0]);
+        reader.findFault();
         reader.empty();
+        texts[0].takeFrom(reader.draft);
         textCount = 1;
     }
 
@@ -198,11 +199,12 @@ public final class WhichSwitch {
         if (textCount >= MOST_TEXTS) {
             return FULL;
         }
-        int fault = reader.faultOf(texts[textCount]);
+        int fault = reader.findFault();
         reader.empty();
         if (fault != Reader.NO_FAULT) {
             return -100 - fault;
         }
+        texts[textCount].takeFrom(reader.draft);
         textCount++;
         return textCount - 1;
     }
@@ -216,19 +218,14 @@ public final class WhichSwitch {
         return was;
     }
 
-    /** What a part of THE LAW says of the names' values that the machine was told. */
-    private int lawSays(int part) {
-        int law = now.law;
-        if (!within(law, 0, MOST_TEXTS - 1)) {
-            return 0;
-        }
-        return Math.max(0, Math.min(999, machine.valueOf(texts[law], part)));
+    private Text textInForce() {
+        return texts[within(now.law, 0, MOST_TEXTS - 1) ? now.law : 0];
     }
 
     private int lawSaysOfLamp(int part, int l, int row) {
         Lamp own = lamps[l];
         machine.tellNames(own.power, row, now.dials[HOUR], own.room, own.more, 0);
-        return lawSays(part);
+        return machine.sayBy(textInForce(), part);
     }
 
     // ---- houses
@@ -470,9 +467,10 @@ public final class WhichSwitch {
             return NONE;
         }
         fillShows(rooms, let);
+        int all = bitsBelow(fuseCount);
         int best = 0;
         int least = MOST_HOUSES + 1;
-        for (int set = 0; set <= bitsBelow(fuseCount); set++) {
+        for (int set = 0; set <= all; set++) {
             if (Integer.bitCount(set) <= 2) {
                 int left = leftBehind(set, let);
                 if (left < least) {
@@ -553,7 +551,8 @@ public final class WhichSwitch {
 
     private void fillShows(int rooms, int some) {
         int watched = lampsOn(now.dials[ON], now.dials[HOUR]) & lampsIn(rooms);
-        for (int set = 0; set <= bitsBelow(fuseCount); set++) {
+        int all = bitsBelow(fuseCount);
+        for (int set = 0; set <= all; set++) {
             for (int h = 0; h < houseCount; h++) {
                 if (has(some, h)) {
                     shows[set * MOST_HOUSES + h] = fedLamps(h, set) & watched;
@@ -600,9 +599,10 @@ public final class WhichSwitch {
     }
 
     private int nextSet(int some, int most) {
+        int all = bitsBelow(fuseCount);
         int best = 0;
         int least = MOST_HOUSES + 1;
-        for (int set = 0; set <= bitsBelow(fuseCount); set++) {
+        for (int set = 0; set <= all; set++) {
             if (Integer.bitCount(set) <= most) {
                 int greatest = greatestKind(set, some);
                 boolean fewer = Integer.bitCount(set) < Integer.bitCount(best);
@@ -664,8 +664,9 @@ public final class WhichSwitch {
             return NO_SUCH;
         }
         int let = letHouses();
-        int best = bitsBelow(fuseCount);
-        for (int set = 0; set <= bitsBelow(fuseCount); set++) {
+        int all = bitsBelow(fuseCount);
+        int best = all;
+        for (int set = 0; set <= all; set++) {
             if (Integer.bitCount(set) < Integer.bitCount(best) && housesFeeding(l, set, let) == 0) {
                 best = set;
             }
@@ -894,7 +895,7 @@ public final class WhichSwitch {
     private void fillTones(int r, int places) {
         for (int far = 0; far < places && far < MOST_PLACES; far++) {
             machine.tellNames(0, 0, now.dials[HOUR], r, 0, far);
-            said[far] = lawSays(TONE_PART);
+            said[far] = machine.sayBy(textInForce(), TONE_PART);
         }
     }
 
@@ -973,7 +974,11 @@ public final class WhichSwitch {
     }
 
     public int meter(int h) {
-        return isHouse(h) ? metered(h) : NO_SUCH;
+        if (!isHouse(h)) {
+            return NO_SUCH;
+        }
+        forgetSaid();
+        return loadOf(bitsBelow(lampCount), litNow(h));
     }
 
     public int witness(int told, int off) {
@@ -981,9 +986,10 @@ public final class WhichSwitch {
             return BAD;
         }
         int let = letHouses();
+        forgetSaid();
         int set = 0;
         for (int h = 0; h < houseCount; h++) {
-            if (has(let, h) && Math.abs(metered(h) - told) <= off) {
+            if (has(let, h) && Math.abs(loadOf(bitsBelow(lampCount), litNow(h)) - told) <= off) {
                 set |= 1 << h;
             }
         }
@@ -1069,11 +1075,6 @@ public final class WhichSwitch {
             said[place] = lawSaysOfLamp(LOAD_PART, l, row);
         }
         return said[place];
-    }
-
-    private int metered(int h) {
-        forgetSaid();
-        return loadOf(bitsBelow(lampCount), litNow(h));
     }
 
     private int usedSwitches() {
@@ -1352,7 +1353,7 @@ public final class WhichSwitch {
         }
     }
 
-    /** A TEXT as steps behind one another: a number from 0 on is itself, a NAME or what is done is its token below 0. */
+    /** A TEXT as steps behind one another: a NUMBER is itself, a NAME or a sign is its token below 0. */
     private static final class Text {
         private final int[] steps = new int[MOST_BYTES];
         private final int[] ends = new int[PARTS];
@@ -1377,6 +1378,13 @@ public final class WhichSwitch {
                 partCount++;
             }
         }
+
+        private void takeFrom(Text other) {
+            System.arraycopy(other.steps, 0, steps, 0, MOST_BYTES);
+            System.arraycopy(other.ends, 0, ends, 0, PARTS);
+            size = other.size;
+            partCount = other.partCount;
+        }
     }
 
     /** THE TAPE and the reading of it. Each FAULT lies where the token begins at which the reading stopped. */
@@ -1395,7 +1403,8 @@ public final class WhichSwitch {
         private int token;
         private int place;
         private int number;
-        private Text into;
+        /** The TEXT as far as it has been read. */
+        private final Text draft = new Text();
 
         private void append(int b) {
             if (size < MOST_BYTES) {
@@ -1414,9 +1423,8 @@ public final class WhichSwitch {
             size = 0;
         }
 
-        private int faultOf(Text t) {
-            into = t;
-            t.begin();
+        private int findFault() {
+            draft.begin();
             at = 0;
             advance();
             boolean whole = readPart(GLOW) && readPart(TONE) && readPart(LOAD) && token == END;
@@ -1431,7 +1439,7 @@ public final class WhichSwitch {
             if (!readOrs(0) || token != ';') {
                 return false;
             }
-            into.endPart();
+            draft.endPart();
             advance();
             return true;
         }
@@ -1445,7 +1453,7 @@ public final class WhichSwitch {
                 if (!readAnds(open)) {
                     return false;
                 }
-                into.add(-OR);
+                draft.add(-OR);
             }
             return true;
         }
@@ -1459,7 +1467,7 @@ public final class WhichSwitch {
                 if (!readNot(open)) {
                     return false;
                 }
-                into.add(-AND);
+                draft.add(-AND);
             }
             return true;
         }
@@ -1475,7 +1483,7 @@ public final class WhichSwitch {
             if (!readNot(open + 1)) {
                 return false;
             }
-            into.add(-NOT);
+            draft.add(-NOT);
             return true;
         }
 
@@ -1491,7 +1499,7 @@ public final class WhichSwitch {
             if (!readSum(open)) {
                 return false;
             }
-            into.add(-sign);
+            draft.add(-sign);
             return true;
         }
 
@@ -1505,7 +1513,7 @@ public final class WhichSwitch {
                 if (!readTerm(open)) {
                     return false;
                 }
-                into.add(-sign);
+                draft.add(-sign);
             }
             return true;
         }
@@ -1519,14 +1527,14 @@ public final class WhichSwitch {
                 if (!readOne(open)) {
                     return false;
                 }
-                into.add(-'*');
+                draft.add(-'*');
             }
             return true;
         }
 
         private boolean readOne(int open) {
             if (token == NUMBER || within(token, FIRST_NAME, LAST_NAME)) {
-                into.add(token == NUMBER ? number : -token);
+                draft.add(token == NUMBER ? number : -token);
                 advance();
                 return true;
             }
@@ -1542,7 +1550,7 @@ public final class WhichSwitch {
             if (!readOne(open)) {
                 return false;
             }
-            into.add(-MINUS_ONE);
+            draft.add(-MINUS_ONE);
             return true;
         }
 
@@ -1637,16 +1645,16 @@ public final class WhichSwitch {
             names[5] = far;
         }
 
-        private int valueOf(Text t, int part) {
+        private int sayBy(Text t, int part) {
             if (!within(part, 0, PARTS - 1)) {
                 return 0;
             }
             int from = part == 0 ? 0 : t.ends[part - 1];
             top = 0;
-            for (int i = from; i < t.ends[part]; i++) {
+            for (int i = from; i < t.ends[part] && i < MOST_BYTES; i++) {
                 take(t.steps[i]);
             }
-            return pop();
+            return Math.max(0, Math.min(999, pop()));
         }
 
         private void take(int step) {
