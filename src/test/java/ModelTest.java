@@ -1297,7 +1297,8 @@ public final class ModelTest {
         for (int l = 0; l < lamps; l++) {
             int kind = below(3) == 0 ? below(6) : below(4);
             int power = below(3) == 0 ? 1 << below(7) : 1 + near(99);
-            int where = 100 * below(rooms) + 10 * below(3) + below(3);
+            int switches = below(3) == 0 ? 8 : 3;
+            int where = 100 * below(rooms) + 10 * below(switches) + below(switches);
             if (below(30) == 0) {
                 call("lamp", near(6), near(100), near(600), near(10));
             }

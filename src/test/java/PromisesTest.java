@@ -87,6 +87,62 @@ public final class PromisesTest {
 
     // ---- fuses, lamps, what is out and on
 
+    /** A house of the largest kind: LAMP l of HOUSE h on FUSE (h + l) % 6. */
+    private static WhichSwitch largest() {
+        WhichSwitch x = plain(6, 10);
+        for (int h = 0; h < 12; h++) {
+            int[] fuses = new int[10];
+            for (int l = 0; l < 10; l++) {
+                fuses[l] = (h + l) % 6;
+            }
+            due("house()", house(x, fuses), h);
+        }
+        return x;
+    }
+
+    private static void large() {
+        WhichSwitch x = largest();
+        due("a thirteenth", house(x, 0, 0, 0, 0, 0, 0, 0, 0, 0, 0), -4);
+        due("show(11)", x.show(11), 1023);
+        due("room(11, 0)", x.room(11, 0), 100);
+        due("nothing(11)", x.nothing(11), 254);
+        due("fedBy(11, 9)", x.fedBy(11, 9), 2);
+        due("sums(0)", x.sums(0), 11);
+        due("which(0, 100)", x.which(0, 100), 1023);
+        due("which(0, 50)", x.which(0, 50), -3);
+        due("put(0)", x.put(0), -1);
+        due("grey()", x.grey(), 1023);
+        due("thick(11, 5)", x.thick(11, 5), 20);
+        due("load(11, 5)", x.load(11, 5), 20);
+        due("over(11)", x.over(11), 0);
+        due("meter(11)", x.meter(11), 100);
+        due("witness(100, 0)", x.witness(100, 0), 4095);
+        due("order(0, 0)", x.order(0, 0), 123456);
+        due("order(11, 0)", x.order(11, 0), 123645);
+        due("order(0, 1)", x.order(0, 1), 20 + 40 + 60 + 80 + 50 + 60);
+        due("broken(11, 63, 511)", x.broken(11, 63, 511), 512);
+        due("broken(11, 63, 1023)", x.broken(11, 63, 1023), 0);
+        due("next(63, 6, 0)", x.next(63, 6, 0), 1);
+        due("next(63, 6, 1)", x.next(63, 6, 1), 2);
+        due("ahead(63, 1)", x.ahead(63, 1), 2);
+        due("ahead(63, 0)", x.ahead(63, 0), 0);
+        due("plan(11, 63, 6)", x.plan(11, 63, 6), -1);
+        due("parts(63, 63, 1)", x.parts(63, 63, 1), 12);
+        due("bound()", x.bound(), 4);
+        due("dead(9)", x.dead(9), 63);
+        due("live(9, 62)", x.live(9, 62), 1 << 3 | 1 << 9);
+        x.set(0, 63);
+        due("touch()", x.touch(), 1023);
+        due("drawn(0, 63, 1)", x.drawn(0, 63, 1), 0);
+        for (int k = 0; k < 10; k++) {
+            due("ask(63, 512)", x.ask(63, 512), k);
+        }
+        due("miss(11)", x.miss(11), 10);
+        due("amiss(11, 9)", x.amiss(11, 9), 512);
+        due("near(9)", x.near(9), 0);
+        due("near(10)", x.near(10), 4095);
+    }
+
     private static void p01() {
         WhichSwitch x = new WhichSwitch();
         int[] counts = {0, 0, 0, 0, 0, 0, 0, 0, 0, 1, 0, 0};
@@ -194,7 +250,7 @@ public final class PromisesTest {
         due("lamp(0, 1, 0, 10)", x.lamp(0, 1, 0, 10), -2);
         due("lamp(5, 99, 577, 9)", x.lamp(5, 99, 577, 9), 0);
         for (int l = 1; l < 10; l++) {
-            due("lamp(0, 1, 0, 0)", x.lamp(0, 1, 0, 0), l);
+            due("lamp(3, 1, 0, l)", x.lamp(3, 1, 0, l), l);
         }
         due("an eleventh", x.lamp(0, 1, 0, 0), -4);
         due("a bad eleventh", x.lamp(0, 1, 0, 10), -2);
@@ -257,6 +313,12 @@ public final class PromisesTest {
         p08says();
         p08faults();
         p08open();
+        WhichSwitch y = new WhichSwitch();
+        due("longer", text(y, "glow 1;tone 1;load 12;"), 1);
+        due("shorter", text(y, "glow 1;tone 1;load 1"), -120);
+        due("longer", text(y, "glow 1;tone 1;load power;"), 2);
+        due("shorter", text(y, "glow 1;tone 1;load powe"), -119);
+        due("shorter", text(y, "glow 1;tone 1;load 1;"), 3);
         WhichSwitch x = new WhichSwitch();
         due("text() of nothing", x.text(), -100);
         due("a FAULT", text(x, "glow 1;tone 1;loads 1;"), -114);
@@ -336,6 +398,9 @@ public final class PromisesTest {
         due("a KEY in an E", fault("glow load ;"), -105);
         due("a NAME too long", fault("glow powers;"), -105);
         due("a NAME cut", fault("glow powe;"), -105);
+        due("a word unlike in its first letter", fault("blow 1;"), -100);
+        due("no NAME in (", fault("glow ((powe));"), -107);
+        due("no NAME behind +", fault("glow 1 + powe;"), -109);
         due("words grown together", fault("glowpower;"), -100);
         due("a number and a word", fault("glow 1power;"), -106);
         due("number number", fault("glow 12 34;"), -108);
@@ -468,11 +533,10 @@ public final class PromisesTest {
         x.set(1, 8);
         due("a STAIR of one SWITCH", x.show(0), 64);
         x.set(1, 2);
-        int[] lit = {0, 5, 0, 6, 1, 17, 1, 6, 18, 0, 23, 0};
-        for (int i = 0; i < lit.length; i += 2) {
-            x.set(2, lit[i]);
-            boolean day = lit[i] >= 6 && lit[i] <= 17;
-            due("TIMED at " + lit[i], x.show(0) >> 7, day ? 1 : 0);
+        for (int hour = 0; hour < 24; hour++) {
+            x.set(2, hour);
+            boolean day = hour == 6 || hour == 17 || hour > 6 && hour < 17;
+            due("TIMED at " + hour, x.show(0) >> 7, day ? 1 : 0);
         }
         x.set(2, 12);
         x.set(1, 6);
@@ -568,6 +632,9 @@ public final class PromisesTest {
         due("one OUT", x.nothing(0), 255 - 1 - 2 - 4 - 8 - 16);
         x.set(0, 3);
         due("all OUT", x.nothing(0), 255);
+        x.set(0, 0);
+        x.set(1, 1 + 2 + 4 + 16 + 64);
+        due("some ON", x.nothing(0), 255 - 1 - 2 - 4 - 8 - 16 - 64);
         due("nothing(1)", x.nothing(1), -5);
         due("nothing(-1)", x.nothing(-1), -5);
     }
@@ -707,6 +774,11 @@ public final class PromisesTest {
         due("near(2)", x.near(2), 3);
         due("near(3)", x.near(3), 7);
         due("near(999)", x.near(999), 7);
+        x.ask(1, 7);
+        due("near(0), the first amiss", x.near(0), 0);
+        due("near(3)", x.near(3), 7);
+        due("near(2)", x.near(2), 0);
+        x.forget();
         due("near(1000)", x.near(1000), -2);
         due("near(-1)", x.near(-1), -2);
     }
@@ -793,6 +865,12 @@ public final class PromisesTest {
         due("of those that are LET", y.next(1, 6, 1), 3);
         WhichSwitch none = new WhichSwitch();
         due("no HOUSES", none.next(63, 1, 0), -1);
+        house(none);
+        due("no FUSES", none.next(63, 1, 0), 0);
+        due("no FUSES", none.next(63, 1, 1), 1);
+        due("no FUSES", none.ahead(63, 0), 0);
+        due("no FUSES", none.ahead(63, 1), 1);
+        due("no FUSES", none.plan(0, 63, 6), 0);
     }
 
     private static void p25() {
@@ -837,8 +915,32 @@ public final class PromisesTest {
         for (int f : fuses) {
             house(z, f);
         }
+        aheadOfMany();
         due("least left", z.ahead(1, 1), 2);
         due("the least of like ones", z.ahead(1, 0), 2);
+    }
+
+    private static void aheadOfMany() {
+        WhichSwitch alike = plain(2, 1);
+        for (int h = 0; h < 12; h++) {
+            house(alike, 0);
+        }
+        due("twelve alike", alike.ahead(1, 0), 0);
+        due("twelve alike", alike.ahead(1, 1), 12);
+        due("twelve alike", alike.next(1, 6, 1), 12);
+        due("twelve alike", alike.plan(0, 1, 6), -1);
+        // twelve of one LAMP each: two OUT leave 2 and 10, three OUT would leave 6 and 6
+        WhichSwitch x = fused(6);
+        x.lamp(0, 1, 0, 0);
+        x.set(1, 1);
+        int[] fuses = {0, 1, 1, 2, 2, 3, 3, 4, 4, 5, 5, 5};
+        for (int f : fuses) {
+            house(x, f);
+        }
+        due("three OUT, at once", x.next(1, 3, 1), 6);
+        due("two OUT, at once", x.next(1, 2, 1), 7);
+        due("two and two", x.ahead(1, 1), 4);
+        due("two and two", x.ahead(1, 0), 6);
     }
 
     private static void p26() {
@@ -1006,6 +1108,12 @@ public final class PromisesTest {
         due("no LAMP", x.sums(5), 1);
         due("sums(6)", x.sums(6), -2);
         due("sums(-1)", x.sums(-1), -2);
+        due("1 2 3, asked again", x.sums(1), 7);
+        due("no LAMP, asked behind it", x.sums(0), 1);
+        due("63 1", strong(63, 1).sums(1), 4);
+        due("1 63", strong(1, 63).sums(1), 4);
+        due("60 10 65", strong(60, 10, 65).sums(1), 8);
+        due("99 98 97 1", strong(99, 98, 97, 1).sums(1), 12);
         due("1 2 4", strong(1, 2, 4).sums(1), 8);
         due("5 5 5", strong(5, 5, 5).sums(1), 4);
         due("64 64 1", strong(64, 64, 1).sums(1), 6);
@@ -1046,6 +1154,8 @@ public final class PromisesTest {
         due("one further on", strong(9, 2, 2).put(1), 101);
         due("two pairs", strong(4, 4, 6, 6).put(1), -1);
         due("1 2 4 8", strong(9, 1, 2, 4, 8).put(1), 16);
+        due("99", strong(5, 1, 2, 4, 8, 52, 31).put(1), 99);
+        due("100", strong(98, 1, 28, 35, 47, 91, 42).put(1), -1);
         due("beyond 99", strong(3, 1, 2, 4, 8, 16, 32, 64).put(1), -1);
         due("put(6)", strong(1).put(6), -2);
         due("put(-1)", strong(1).put(-1), -2);
@@ -1260,6 +1370,12 @@ public final class PromisesTest {
         house(x, 1, 1);
         house(x, 2, 0);
         due("as much as it BEARS", x.over(0), 0);
+        x.set(1, 0);
+        due("none LIT", x.over(1), 0);
+        law(x, "glow 0;tone 0;load 11;");
+        x.set(1, 1);
+        due("the first", x.over(0), 1);
+        x.force(0);
         due("more", x.over(1), 2);
         due("BEARS 0", x.over(2), 4);
         x.set(0, 4);
@@ -1292,6 +1408,12 @@ public final class PromisesTest {
         due("alone in its row", y.thick(0, 0), 100);
         law(y, "glow 0;tone 0;load power * row;");
         due("together in the row", y.thick(0, 1), 120);
+        WhichSwitch z = fused(1);
+        z.lamp(0, 10, 0, 0);
+        z.lamp(2, 20, 1, 0);
+        z.lamp(2, 40, 17, 0);
+        house(z, 0, 0, 0);
+        due("a SWITCH that is Y alone", z.thick(0, 0), 70);
         due("thick(1, 0)", x.thick(1, 0), -5);
         due("thick(-1, 0)", x.thick(-1, 0), -5);
         due("thick(0, 2)", x.thick(0, 2), -5);
@@ -1325,6 +1447,8 @@ public final class PromisesTest {
         due("told 10, 10 off", x.witness(10, 10), 7);
         due("told 25, 15 off", x.witness(25, 15), 6);
         due("told 99999, 999 off", x.witness(99999, 999), 0);
+        due("told 0, 0 off", x.witness(0, 0), 1);
+        due("told 0, 10 off", x.witness(0, 10), 3);
         due("told 999, 999 off", x.witness(999, 999), 7);
         due("told -1", x.witness(-1, 0), -2);
         due("told 100000", x.witness(100000, 0), -2);
@@ -1373,7 +1497,9 @@ public final class PromisesTest {
         WhichSwitch x = plain(1, 3);
         due("no HOUSES", x.drawn(0, 0, 0), -3);
         due("bad, no HOUSES", x.drawn(-1, 0, 0), -2);
-        for (int h = 0; h < 7; h++) {
+        house(x, 0, 0, 0);
+        due("one HOUSE", x.drawn(0, 63, 0), 0);
+        for (int h = 1; h < 7; h++) {
             house(x, 0, 0, 0);
         }
         // 48271, then 182605794, 1291394886, 1914720637
@@ -1461,6 +1587,31 @@ public final class PromisesTest {
         x.ask(1, 0);
         due("back() once more", x.back(), 2);
         due("the ASKS are as they were", x.lets(), 6);
+        p50ask();
+    }
+
+    /** All that an ASK keeps is as it was in THE IMAGE. */
+    private static void p50ask() {
+        WhichSwitch x = fused(2);
+        x.lamp(5, 1, 1, 0);
+        x.lamp(0, 1, 102, 0);
+        house(x, 0, 1);
+        house(x, 1, 0);
+        x.set(0, 2);
+        x.set(1, 1);
+        x.set(2, 12);
+        x.ask(1, 1);
+        due("lets()", x.lets(), 1);
+        x.image();
+        x.forget();
+        x.set(0, 1);
+        x.set(1, 0);
+        x.set(2, 1);
+        x.ask(3, 0);
+        due("lets() of another ASK", x.lets(), 3);
+        x.back();
+        due("lets() as it was", x.lets(), 1);
+        due("amiss(1, 0) as it was", x.amiss(1, 0), 1);
     }
 
     // ---- the host
@@ -1664,6 +1815,8 @@ public final class PromisesTest {
             promise = "" + (i + 1);
             promises[i].run();
         }
+        promise = "of the largest house";
+        large();
         System.out.println(checks + " checks of " + promises.length + " promises, " + wrong + " wrong");
         if (wrong != 0) {
             System.exit(1);
