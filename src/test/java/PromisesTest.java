@@ -324,13 +324,20 @@ public final class PromisesTest {
         due("a FAULT", text(x, "glow 1;tone 1;loads 1;"), -114);
         due("THE TAPE after a FAULT", x.count(11), 0);
         for (int t = 1; t < 6; t++) {
-            due("a TEXT", text(x, "glow 1;tone 1;load 1;"), t);
+            due("a TEXT", text(x, "glow 1;tone 1;load " + t + ";"), t);
             due("THE TAPE after a TEXT", x.count(11), 0);
         }
         due("THE LAW is as it was", x.count(10), 0);
         feed(x, "glow");
         due("a seventh, with a FAULT", x.text(), -4);
         due("THE TAPE stays", x.count(11), 4);
+        x.fuse(1, 1);
+        x.lamp(4, 1, 0, 0);
+        house(x, 0);
+        for (int t = 1; t < 6; t++) {
+            x.force(t);
+            due("what it says", x.meter(0), t);
+        }
     }
 
     private static void p08says() {
@@ -916,6 +923,7 @@ public final class PromisesTest {
             house(z, f);
         }
         aheadOfMany();
+        aheadOfTwo();
         due("least left", z.ahead(1, 1), 2);
         due("the least of like ones", z.ahead(1, 0), 2);
     }
@@ -941,6 +949,24 @@ public final class PromisesTest {
         due("two OUT, at once", x.next(1, 2, 1), 7);
         due("two and two", x.ahead(1, 1), 4);
         due("two and two", x.ahead(1, 0), 6);
+    }
+
+    /** HOUSES of two LAMPS, told by two digits each: the FUSES. */
+    private static WhichSwitch ofTwo(int... fuses) {
+        WhichSwitch x = plain(6, 2);
+        for (int both : fuses) {
+            house(x, both / 10, both % 10);
+        }
+        return x;
+    }
+
+    private static void aheadOfTwo() {
+        WhichSwitch x = ofTwo(22, 5, 41, 20, 50, 24, 21, 35, 55, 33, 34);
+        due("with three OUT at first it were 1", x.ahead(63, 1), 2);
+        due("with three OUT at first it were 1", x.ahead(63, 0), 3);
+        WhichSwitch y = ofTwo(45, 52, 23, 21, 42, 40, 3, 24, 0, 33, 13, 22);
+        due("with three OUT behind it were 1", y.ahead(63, 1), 2);
+        due("with three OUT behind it were 1", y.ahead(63, 0), 3);
     }
 
     private static void p26() {
