@@ -1,92 +1,5 @@
 /** One method for each promise: ordinary inputs, the edges that the document names, wrong inputs. */
-public final class PromisesTest {
-    private static int checks = 0;
-    private static int wrong = 0;
-    private static String promise = "";
-
-    private static void due(String call, long got, long want) {
-        checks++;
-        if (got != want) {
-            wrong++;
-            System.out.println("promise " + promise + ": " + call + " answered " + got + ", due is " + want);
-        }
-    }
-
-    // ---- helpers
-
-    private static void row(WhichSwitch x, int s, int sort, int... numbers) {
-        x.sheet(s, sort, numbers.length);
-        for (int i = 0; i < numbers.length; i++) {
-            x.cell(s, i, numbers[i]);
-        }
-    }
-
-    private static int house(WhichSwitch x, int... fuses) {
-        row(x, 3, 2, fuses);
-        return x.house(3);
-    }
-
-    private static int label(WhichSwitch x, int year, int... fuses) {
-        row(x, 3, 2, fuses);
-        return x.label(year, 3);
-    }
-
-    private static void feed(WhichSwitch x, String s) {
-        for (int i = 0; i < s.length(); i++) {
-            x.feed(s.charAt(i), 1);
-        }
-    }
-
-    private static int text(WhichSwitch x, String s) {
-        feed(x, s);
-        return x.text();
-    }
-
-    private static void law(WhichSwitch x, String s) {
-        int t = text(x, s);
-        due("text of " + s + " is one", t > 0 ? 1 : t, 1);
-        x.force(t);
-    }
-
-    private static WhichSwitch fused(int n) {
-        WhichSwitch x = new WhichSwitch();
-        for (int f = 0; f < n; f++) {
-            x.fuse(100, 1);
-        }
-        return x;
-    }
-
-    /** FUSES, and JOINS of POWER 10 in ROOM 0 by SWITCH 0, which is ON. */
-    private static WhichSwitch plain(int fuses, int lamps) {
-        WhichSwitch x = fused(fuses);
-        for (int l = 0; l < lamps; l++) {
-            x.lamp(0, 10, 0, 0);
-        }
-        x.set(1, 1);
-        return x;
-    }
-
-    /** What glow says of a LAMP of POWER 7, ROOM 2, MORE 5 at HOUR 9, or the refusal of the TEXT. */
-    private static int glow(String e) {
-        WhichSwitch x = fused(1);
-        x.lamp(0, 7, 200, 5);
-        x.set(1, 1);
-        x.set(2, 9);
-        house(x, 0);
-        int t = text(x, "glow " + e + ";tone 0;load 0;");
-        if (t < 0) {
-            return t;
-        }
-        x.force(t);
-        return x.bright(0, 0);
-    }
-
-    private static String times(String s, int n) {
-        return s.repeat(n);
-    }
-
-    // ---- fuses, lamps, what is out and on
-
+public final class PromisesTest extends Checks {
     /** A house of the largest kind: LAMP l of HOUSE h on FUSE (h + l) % 6. */
     private static WhichSwitch largest() {
         WhichSwitch x = plain(6, 10);
@@ -142,6 +55,8 @@ public final class PromisesTest {
         due("near(9)", x.near(9), 0);
         due("near(10)", x.near(10), 4095);
     }
+
+    // ---- fuses, lamps, what is out and on
 
     private static void p01() {
         WhichSwitch x = new WhichSwitch();
@@ -387,10 +302,6 @@ public final class PromisesTest {
         due("no blanks", glow("(1+2)*power"), 21);
     }
 
-    private static int fault(String s) {
-        return text(new WhichSwitch(), s);
-    }
-
     private static void p08faults() {
         due("too early", fault("glow 1;tone 2;load 3"), -120);
         due("too early, blanks behind", fault("glow 1;tone 2;load 3 \n"), -122);
@@ -431,17 +342,17 @@ public final class PromisesTest {
         due("; missing", fault("glow 1 tone 2;"), -107);
         due("the first of two", fault("glow ; ?"), -105);
         due("a + NUMBER too long that can't stand there", fault("glow 1 12345;"), -107);
-        due("160 bytes", fault("glow 1;tone 2;load 3;" + times(" ", 139)), 1);
+        due("160 bytes", fault("glow 1;tone 2;load 3;" + " ".repeat(139)), 1);
     }
 
     private static void p08open() {
-        due("5 (", glow(times("(", 5) + "3" + times(")", 5)), 3);
-        due("6 (", glow(times("(", 6) + "3" + times(")", 6)), -110);
-        due("5 not", glow(times("not ", 5) + "0"), 1);
-        due("6 not", glow(times("not ", 6) + "0"), -125);
-        due("4 -", glow(times("- ", 4) + "3"), 3);
-        due("5 -", glow(times("- ", 5) + "3"), 0);
-        due("6 -", glow(times("- ", 6) + "3"), -115);
+        due("5 (", glow("(".repeat(5) + "3" + ")".repeat(5)), 3);
+        due("6 (", glow("(".repeat(6) + "3" + ")".repeat(6)), -110);
+        due("5 not", glow("not ".repeat(5) + "0"), 1);
+        due("6 not", glow("not ".repeat(6) + "0"), -125);
+        due("4 -", glow("- ".repeat(4) + "3"), 3);
+        due("5 -", glow("- ".repeat(5) + "3"), 0);
+        due("6 -", glow("- ".repeat(6) + "3"), -115);
         due("mixed", glow("not ( - ( - 3 ) )"), 0);
         due("mixed, one more (", glow("not ( - ( - ( 3 ) ) )"), -117);
         due("mixed, one more -", glow("not ( - ( - - 3 ) )"), -117);
@@ -949,15 +860,6 @@ public final class PromisesTest {
         due("two OUT, at once", x.next(1, 2, 1), 7);
         due("two and two", x.ahead(1, 1), 4);
         due("two and two", x.ahead(1, 0), 6);
-    }
-
-    /** HOUSES of two LAMPS, told by two digits each: the FUSES. */
-    private static WhichSwitch ofTwo(int... fuses) {
-        WhichSwitch x = plain(6, 2);
-        for (int both : fuses) {
-            house(x, both / 10, both % 10);
-        }
-        return x;
     }
 
     private static void aheadOfTwo() {
@@ -1838,14 +1740,11 @@ public final class PromisesTest {
             PromisesTest::p51, PromisesTest::p52, PromisesTest::p53, PromisesTest::p54, PromisesTest::p55,
         };
         for (int i = 0; i < promises.length; i++) {
-            promise = "" + (i + 1);
+            about("promise " + (i + 1));
             promises[i].run();
         }
-        promise = "of the largest house";
+        about("the largest house");
         large();
-        System.out.println(checks + " checks of " + promises.length + " promises, " + wrong + " wrong");
-        if (wrong != 0) {
-            System.exit(1);
-        }
+        end(promises.length + " promises");
     }
 }
