@@ -47,7 +47,8 @@ public final class EdgesTest extends Checks {
         due("an ASK", x.ask(63, 0), 0);
         long[] zero = {x.show(0), x.room(0, 5), x.amiss(0, 0), x.miss(0), x.likeliest(), x.next(63, 6, 0),
             x.ahead(63, 0), x.plan(0, 63, 6), x.bound(), x.agree(0, 0), x.odds(0, 0), x.broken(0, 63, 0), x.over(0),
-            x.meter(0), x.order(0, 0), x.order(0, 1), x.drawn(99999, 63, 0), x.drawn(99999, 63, 1), x.grey(), x.touch()};
+            x.meter(0), x.order(0, 0), x.order(0, 1), x.drawn(99999, 63, 0), x.drawn(99999, 63, 1), x.grey(),
+            x.touch()};
         for (int i = 0; i < zero.length; i++) {
             due("0, " + i, zero[i], 0);
         }
@@ -140,7 +141,7 @@ public final class EdgesTest extends Checks {
         due("a LABEL", label(x, 1, 0, 0), 0);
         due("a LABEL", x.lamp(0, 1, 0, 0), STATE);
 
-        says("-5: no such LAMP; -7: what.");
+        says("Of a LAMP what 0 KIND, 1 POWER, 2 ROOM, 3 X, 4 Y, 5 MORE. -5: no such LAMP; -7: what.");
         x = new WhichSwitch();
         x.lamp(5, 99, 577, 9);
         int[] most = {5, 99, 5, 7, 7, 9};
@@ -381,6 +382,18 @@ public final class EdgesTest extends Checks {
     }
 
     private static void likely() {
+        says("HOUSES (bits) that are LET.");
+        due("no HOUSE", new WhichSwitch().lets(), 0);
+        WhichSwitch let = largest();
+        due("all twelve", let.lets(), 4095);
+        let.set(0, 62);
+        let.ask(1, let.show(11));
+        due("the last and those like it", let.lets(), bit(11) + bit(5));
+        let.ask(0, 0);
+        due("looking nowhere", let.lets(), bit(11) + bit(5));
+        let.ask(1, 0);
+        due("none", let.lets(), 0);
+
         says("The HOUSE that is AMISS in fewest by miss(), of like ones the first; -1: there is none.");
         WhichSwitch x = plain(2, 1);
         due("no HOUSE", x.likeliest(), -1);
@@ -413,7 +426,7 @@ public final class EdgesTest extends Checks {
     }
 
     private static void parts() {
-        says("into how many KINDS it PARTS those that are LET (what 0), how many the greatest has (1; 0). BAD.");
+        says("AN ASK with some FUSES (bits) OUT, in ROOMS (bits): into how many KINDS it PARTS those that are LET (what 0), how many the greatest has (1; 0). BAD.");
         WhichSwitch x = ofOne(6, 0, 1, 2, 3, 4, 5, 0, 1, 2, 3, 4, 5);
         due("none OUT: one KIND", x.parts(0, 63, 0), 1);
         due("none OUT: twelve", x.parts(0, 63, 1), 12);
@@ -439,7 +452,7 @@ public final class EdgesTest extends Checks {
     }
 
     private static void next() {
-        says("with at most so many (0 .. 6) OUT: which (what 0, bits), how many the greatest KIND has (1).");
+        says("NEXT for those that are LET, in ROOMS (bits), with at most so many (0 .. 6) OUT: which (what 0, bits), how many the greatest KIND has (1).");
         WhichSwitch x = ofOne(6, 0, 1, 2, 3, 4, 5);
         due("0", x.next(1, 0, 0), 0);
         due("0", x.next(1, 0, 1), 6);
@@ -467,7 +480,7 @@ public final class EdgesTest extends Checks {
         due("next, BAD", x.next(1, 0, 2), BAD);
         due("ahead, BAD", x.ahead(64, 0), BAD);
 
-        says("the set (what 0), how many are left at most (1)");
+        says("TWO AHEAD for those that are LET, in ROOMS (bits): the set (what 0), how many are left at most (1)");
         WhichSwitch alike = ofOne(2, 0, 0, 0, 0, 0, 0, 0, 0, 0, 0, 0, 0);
         due("twelve alike", alike.ahead(63, 0), 0);
         due("twelve alike", alike.ahead(63, 1), 12);
@@ -480,7 +493,7 @@ public final class EdgesTest extends Checks {
     }
 
     private static void plans() {
-        says("till it alone is left; -1: it isn't LET, or NEXT leaves all. -5: no such HOUSE; -7: ROOMS, most.");
+        says("with at most so many (0 .. 6) OUT, till it alone is left; -1: it isn't LET, or NEXT leaves all.");
         WhichSwitch x = ofOne(6, 0, 1, 2, 3, 4, 5);
         due("alone from the first on", ofOne(6, 0).plan(0, 63, 6), 0);
         due("alone, though none may be OUT", ofOne(6, 0).plan(0, 0, 0), 0);
@@ -705,7 +718,7 @@ public final class EdgesTest extends Checks {
         label(z, 30, 0, 0, 1);
         due("3, 1, 2 of 3", z.right(), 10);
 
-        says("in lowest terms (0 by 1, if there are none). NO: LABEL, part.");
+        says("part 0 above, 1 below the line, in lowest terms (0 by 1, if there are none). NO: LABEL, part.");
         due("none is LET, above", x.odds(3, 0), 0);
         due("none is LET, below", x.odds(3, 1), 1);
         x.forget();
@@ -760,7 +773,7 @@ public final class EdgesTest extends Checks {
         due("the last: 7, 0, 0", x.wall(0, 0, 0), 2);
         due("the last: 7, 0, 0", x.wall(0, 0, 1), 7);
 
-        says("of like ones the first (what 0), how much that is (1).");
+        says("(all differences of what is told from what tone says, by how far each place is off, together), of like ones the first (what 0), how much that is (1).");
         row(x, 0, 2, 50, 50);
         due("both alike", x.wall(0, 0, 0), 0);
         due("40 and 33", x.wall(0, 0, 1), 73);
@@ -872,11 +885,13 @@ public final class EdgesTest extends Checks {
         due("no such HOUSE", x.thick(1, 0), -5);
         for (int i = 0; i < 8; i++) {
             WhichSwitch z = fused(1);
-            z.lamp(0, 7, 10 * i, 0);
-            z.lamp(2, 20, (i + 1) % 8, 0);
-            z.lamp(2, 40, 10 * ((i + 2) % 8) + (i + 3) % 8, 0);
+            int second = (i + 1) % 8;
+            int third = (i + 2) % 8;
+            z.lamp(0, 7, 11 * i, 0);
+            z.lamp(2, 20, 10 * i + second, 0);
+            z.lamp(2, 40, 10 * second + third, 0);
             house(z, 0, 0, 0);
-            due("SWITCH " + i + " and those behind it", z.thick(0, 0), (i + 1) % 8 == 0 ? 47 : 67);
+            due("SWITCHES " + i + " and " + third + ", the latter as Y alone", z.thick(0, 0), 67);
         }
 
         WhichSwitch y = fused(2);
@@ -900,7 +915,7 @@ public final class EdgesTest extends Checks {
         due("nothing", y.thick(0, 0), 0);
     }
 
-    /** What thick() tried last, by all sets of SWITCHES: LAMPS 0 .. 7 have one each, LAMP 8 the first, LAMP 9 the last. */
+    /** The last of thick() by all sets of SWITCHES: LAMPS 0 .. 7 have one each, LAMP 8 the first, LAMP 9 the last. */
     private static int strongest() {
         int most = 0;
         for (int on = 0; on < 256; on++) {
@@ -984,6 +999,7 @@ public final class EdgesTest extends Checks {
         }
         // of SEED 0: 48271, then 182605794, 1291394886, 1914720637, 2078669041, 407355683, 1105902161, 854716505,
         // 564586691, 1596680831, and one more; by 100: 94, 86, 37, 41, 83, 61, 5, 91, 31, ..
+        says("The first, modulo how many HOUSES there are: the HOUSE (what 0); then for each LAMP one");
         due("SEED 0: 48271 by 12", x.drawn(0, 63, 0), 7);
         due("SEED 99999: 532132706 by 12", x.drawn(99999, 63, 0), 2);
         long lot = 1596680831L * 48271L % 2147483647L;
@@ -1081,9 +1097,9 @@ public final class EdgesTest extends Checks {
         due("it stays", x.cell(0, 4, 1), 1);
 
         says("Number i of a SHEET becomes v (of bytes, shorts its lowest 8, 16 bits): 1.");
-        int[][] given = {{127, 128, 255, 256, -1, -128, -129, MAX, MIN}, {32767, 32768, 65535, 65536, -1, -32768, -32769,
-            MAX, MIN}};
-        int[][] kept = {{127, -128, -1, 0, -1, -128, 127, -1, 0}, {32767, -32768, -1, 0, -1, -32768, 32767, -1, 0}};
+        int[][] given = {{127, 128, 255, 256, -1, -128, -256, MAX, MIN, 256 + 90},
+            {999, 32768, 65535, 65536, -1, -32768, -65536, MAX, MIN, 65536 + 90}};
+        int[][] kept = {{127, -128, -1, 0, -1, -128, 0, -1, 0, 90}, {999, -32768, -1, 0, -1, -32768, 0, -1, 0, 90}};
         for (int sort = 0; sort < 2; sort++) {
             for (int i = 0; i < given[sort].length; i++) {
                 row(x, 0, sort, given[sort][i]);
@@ -1154,7 +1170,8 @@ public final class EdgesTest extends Checks {
             due("the first's POWER", x.lampTold(1, 1), 11);
         }
         WhichSwitch y = new WhichSwitch();
-        row(y, 0, 2, 5, 99, 577, 9, 6, 1, 0, 0, 0, 0, 0, 0, 0, 100, 0, 0, 0, 1, 578, 0, 0, 1, 600, 0, 0, 1, 0, 10, 0, 1, 0, 0);
+        row(y, 0, 2, 5, 99, 577, 9, 6, 1, 0, 0, 0, 0, 0, 0, 0, 100, 0, 0,
+                0, 1, 578, 0, 0, 1, 600, 0, 0, 1, 0, 10, 0, 1, 0, 0);
         due("the first and the last of eight", y.lampsBy(0, 2, 0, 8), 2);
         due("two LAMPS", y.count(5), 2);
         int[] told = {5, 99, 5, 7, 7, 9};

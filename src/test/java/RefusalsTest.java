@@ -1,10 +1,8 @@
-import java.util.HashMap;
 import java.util.List;
-import java.util.Map;
 import java.util.function.IntFunction;
 import java.util.function.Supplier;
 
-/** The refusals: of each number of each call on both sides, of several the first one told, and that they change nothing. */
+/** Each call's refusals: of each number on both sides, of several the first one told; that they change nothing. */
 public final class RefusalsTest extends Checks {
     private interface Call {
         long of(WhichSwitch x);
@@ -12,12 +10,7 @@ public final class RefusalsTest extends Checks {
 
     // ---- what the calls are made of
 
-    /** A new object. */
-    private static WhichSwitch bare() {
-        return new WhichSwitch();
-    }
-
-    /** Three FUSES and five LAMPS, one in each of ROOMS 0 .. 4, and SHEETS; nothing by which lamp() would be refused. */
+    /** Three FUSES, five LAMPS, one in each of ROOMS 0 .. 4, and SHEETS; nothing by which lamp() would be refused. */
     private static WhichSwitch lamps() {
         WhichSwitch x = new WhichSwitch();
         x.fuse(40, 2);
@@ -74,7 +67,7 @@ public final class RefusalsTest extends Checks {
         return x;
     }
 
-    /** All at its most: SHEET 0 would do as a HOUSE, SHEET 1 is too short, SHEET 2 has no such FUSE, SHEET 3 is missing. */
+    /** All at its most: SHEET 0 would do as a HOUSE, 1 is too short, 2 has a FUSE that isn't there, 3 is missing. */
     private static WhichSwitch full() {
         WhichSwitch x = new WhichSwitch();
         for (int f = 0; f < 6; f++) {
@@ -133,343 +126,505 @@ public final class RefusalsTest extends Checks {
         return x;
     }
 
+    private static WhichSwitch noTextMore(String tape) {
+        WhichSwitch x = new WhichSwitch();
+        for (int t = 1; t < 6; t++) {
+            text(x, "glow " + t + ";tone 1;load 1;");
+        }
+        feed(x, tape);
+        return x;
+    }
+
+    private static WhichSwitch fed(int bytes) {
+        WhichSwitch x = new WhichSwitch();
+        feed(x, "glow 9;tone 9;load 9;" + " ".repeat(bytes - 21));
+        return x;
+    }
+
+    /** How an object is made, and what is seen of it before anything is refused. */
+    private record Made(String name, Supplier<WhichSwitch> maker, List<Long> seen) {
+        Made(String name, Supplier<WhichSwitch> maker) {
+            this(name, maker, Observed.of(maker, x -> { }));
+        }
+    }
+
+    private static final Made NEW = new Made("a new object", WhichSwitch::new);
+    private static final Made LAMPS = new Made("FUSES, LAMPS and SHEETS alone", RefusalsTest::lamps);
+    private static final Made WHOLE = new Made("some of all", RefusalsTest::whole);
+    private static final Made SHEETED = new Made("some of all, with like SHEETS", RefusalsTest::sheeted);
+    private static final Made ALL = new Made("all at its most", RefusalsTest::full);
+    private static final Made NONE_LET = new Made("none LET", RefusalsTest::noneLet);
+
     // ---- how they are tested
 
-    private static final Map<String, List<Long>> SEEN = new HashMap<>();
-    private static String made = "";
-    private static Supplier<WhichSwitch> maker = RefusalsTest::bare;
-
-    private static void by(String name, Supplier<WhichSwitch> one) {
-        made = name;
-        maker = one;
-    }
-
-    private static void changesNothing(String name, Call call) {
-        List<Long> before = SEEN.computeIfAbsent(made, m -> Observed.of(maker, x -> { }));
-        List<Long> after = Observed.of(maker, call::of);
+    private static void changesNothing(Made on, String name, Call call) {
+        List<Long> after = Observed.of(on.maker, call::of);
         int unlike = 0;
-        for (int i = 0; i < before.size(); i++) {
-            unlike += before.get(i).equals(after.get(i)) ? 0 : 1;
+        for (int i = 0; i < after.size(); i++) {
+            unlike += on.seen.get(i).equals(after.get(i)) ? 0 : 1;
         }
-        due("what later calls show otherwise behind " + name + " on " + made, unlike, 0);
+        due("what later calls show otherwise behind " + name + " on " + on.name, unlike, 0);
     }
 
-    private static void refused(String name, Call call, long refusal) {
-        due(name + " on " + made, call.of(maker.get()), refusal);
-        changesNothing(name, call);
+    private static void answered(Made on, String name, Call call, long answer) {
+        due(name + " on " + on.name, call.of(on.maker.get()), answer);
     }
 
-    private static void answered(String name, Call call, long answer) {
-        due(name + " on " + made, call.of(maker.get()), answer);
+    private static void refused(Made on, String name, Call call, long refusal) {
+        answered(on, name, call, refusal);
+        changesNothing(on, name, call);
     }
 
     /** A number from least to most is taken; one below, one above and the furthest ones are refused. */
-    private static void bounds(String name, int least, int most, long below, long above, IntFunction<Call> call) {
+    private static void bounds(Made on, String name, int least, int most, long refusal, IntFunction<Call> call) {
+        bounds(on, name, least, most, refusal, refusal, call);
+    }
+
+    private static void bounds(Made on, String name, int least, int most, long below, long above,
+            IntFunction<Call> call) {
         int[] allowed = {least, most, least + (most - least) / 2};
         for (int v : allowed) {
-            long got = call.apply(v).of(maker.get());
-            due("whether " + name + " " + v + " on " + made + " is refused", got == below || got == above ? 1 : 0, 0);
+            long got = call.apply(v).of(on.maker.get());
+            due("whether " + name + " " + v + " is refused on " + on.name, got == below || got == above ? 1 : 0, 0);
         }
         int[] belows = {least - 1, MIN};
         for (int v : belows) {
-            refused(name + " " + v, call.apply(v), below);
+            refused(on, name + " " + v, call.apply(v), below);
         }
         int[] aboves = {most + 1, MAX};
         for (int v : aboves) {
-            refused(name + " " + v, call.apply(v), above);
+            refused(on, name + " " + v, call.apply(v), above);
         }
     }
 
-    private static void bounds(String name, int least, int most, long refusal, IntFunction<Call> call) {
-        bounds(name, least, most, refusal, refusal, call);
+    // ---- fuses, lamps, what is out and on
+
+    private static void fuses() {
+        says("A FUSE (BEARS, TAKES): its number. BAD; FULL.");
+        bounds(WHOLE, "most", 0, 999, BAD, v -> x -> x.fuse(v, 1));
+        bounds(WHOLE, "time", 1, 99, BAD, v -> x -> x.fuse(1, v));
+        refused(ALL, "most, BAD ahead of FULL", x -> x.fuse(1000, 1), BAD);
+        refused(ALL, "time, BAD ahead of FULL", x -> x.fuse(0, 100), BAD);
+        refused(ALL, "FULL", x -> x.fuse(0, 1), FULL);
+
+        says("becomes v: what was. NONE: what; BAD: v.");
+        bounds(WHOLE, "what", 0, 3, NONE, v -> x -> x.set(v, 0));
+        bounds(WHOLE, "OUT", 0, 7, BAD, v -> x -> x.set(0, v));
+        bounds(WHOLE, "ON", 0, 255, BAD, v -> x -> x.set(1, v));
+        bounds(WHOLE, "THE HOUR", 0, 23, BAD, v -> x -> x.set(2, v));
+        bounds(WHOLE, "SLIPS", 0, 99, BAD, v -> x -> x.set(3, v));
+        refused(WHOLE, "what and v below", x -> x.set(4, -1), NONE);
+        refused(WHOLE, "what and v above", x -> x.set(-1, MAX), NONE);
+
+        says("10 THE LAW, 11 bytes of THE TAPE. BAD.");
+        bounds(WHOLE, "what", 0, 11, BAD, v -> x -> x.count(v));
     }
 
-    // ---- each number on both sides
-
-    private static void toldBounds() {
-        by("whole", RefusalsTest::whole);
-        bounds("fuse: most", 0, 999, BAD, v -> x -> x.fuse(v, 1));
-        bounds("fuse: time", 1, 99, BAD, v -> x -> x.fuse(1, v));
-        bounds("set: what", 0, 3, NONE, v -> x -> x.set(v, 0));
-        bounds("set: OUT", 0, 7, BAD, v -> x -> x.set(0, v));
-        bounds("set: ON", 0, 255, BAD, v -> x -> x.set(1, v));
-        bounds("set: THE HOUR", 0, 23, BAD, v -> x -> x.set(2, v));
-        bounds("set: SLIPS", 0, 99, BAD, v -> x -> x.set(3, v));
-        bounds("count: what", 0, 11, BAD, v -> x -> x.count(v));
-        bounds("lampTold: l", 0, 4, -5, v -> x -> x.lampTold(v, 0));
-        bounds("lampTold: what", 0, 5, -7, v -> x -> x.lampTold(0, v));
-        bounds("feed: n", 1, 8, BAD, v -> x -> x.feed(0, v));
-        bounds("force: t", 0, 2, BAD, v -> x -> x.force(v));
-        by("lamps", RefusalsTest::lamps);
-        bounds("lamp: kind", 0, 5, BAD, v -> x -> x.lamp(v, 1, 0, 0));
-        bounds("lamp: power", 1, 99, BAD, v -> x -> x.lamp(0, v, 0, 0));
-        bounds("lamp: where", 0, 577, BAD, v -> x -> x.lamp(0, 1, v / 10 % 10 > 7 ? 0 : v, 0));
-        bounds("lamp: more", 0, 9, BAD, v -> x -> x.lamp(0, 1, 0, v));
+    private static void lampsTold() {
+        says("and Y): its number. BAD; FULL; STATE: there are HOUSES, LABELS, ASKS.");
+        bounds(LAMPS, "kind", 0, 5, BAD, v -> x -> x.lamp(v, 1, 0, 0));
+        bounds(LAMPS, "power", 1, 99, BAD, v -> x -> x.lamp(0, v, 0, 0));
+        bounds(LAMPS, "where", 0, 577, BAD, v -> x -> x.lamp(0, 1, v / 10 % 10 > 7 ? 0 : v, 0));
+        bounds(LAMPS, "more", 0, 9, BAD, v -> x -> x.lamp(0, 1, 0, v));
         for (int where = -120; where < 720; where++) {
             int w = where;
             boolean good = where >= 0 && where < 600 && where / 10 % 10 < 8 && where % 10 < 8;
-            answered("lamp: where " + where, x -> x.lamp(0, 1, w, 0), good ? 5 : BAD);
+            answered(LAMPS, "where " + where, x -> x.lamp(0, 1, w, 0), good ? 5 : BAD);
+        }
+        refused(ALL, "kind, BAD ahead of FULL", x -> x.lamp(6, 1, 0, 0), BAD);
+        refused(ALL, "power, BAD ahead of FULL", x -> x.lamp(0, 0, 0, 0), BAD);
+        refused(ALL, "where, BAD ahead of FULL", x -> x.lamp(0, 1, 600, 0), BAD);
+        refused(ALL, "more, BAD ahead of FULL", x -> x.lamp(0, 1, 0, 10), BAD);
+        refused(ALL, "FULL ahead of STATE", x -> x.lamp(0, 1, 0, 0), FULL);
+        refused(WHOLE, "BAD ahead of STATE", x -> x.lamp(0, 1, 0, -1), BAD);
+        refused(new Made("a HOUSE", RefusalsTest::housed), "STATE", x -> x.lamp(0, 1, 0, 0), STATE);
+        refused(new Made("a LABEL", RefusalsTest::labelled), "STATE", x -> x.lamp(0, 1, 0, 0), STATE);
+        refused(new Made("an ASK", RefusalsTest::asked), "STATE", x -> x.lamp(0, 1, 0, 0), STATE);
+
+        says("-5: no such LAMP; -7: what.");
+        bounds(WHOLE, "l", 0, 4, -5, v -> x -> x.lampTold(v, 0));
+        bounds(WHOLE, "what", 0, 5, -7, v -> x -> x.lampTold(0, v));
+        refused(WHOLE, "-5 ahead of -7", x -> x.lampTold(5, 6), -5);
+    }
+
+    // ---- the law
+
+    private static void texts() {
+        says("BAD: n not 1 .. 8; FULL.");
+        bounds(WHOLE, "n", 1, 8, BAD, v -> x -> x.feed(0, v));
+        refused(ALL, "BAD ahead of FULL", x -> x.feed(0, 9), BAD);
+        refused(ALL, "FULL", x -> x.feed(0, 1), FULL);
+        Made fed = new Made("159 bytes", () -> fed(159));
+        refused(fed, "FULL by the second of two", x -> x.feed(0, 2), FULL);
+        refused(fed, "FULL by the last seven", x -> x.feed(0, 8), FULL);
+        answered(fed, "the last", x -> x.feed(0, 1), 160);
+        Made shorter = new Made("152 bytes", () -> fed(152));
+        answered(shorter, "the last eight", x -> x.feed(0, 8), 160);
+
+        says("FULL (ahead of the FAULT; then THE TAPE stays).");
+        refused(ALL, "FULL", x -> x.text(), FULL);
+        refused(new Made("a FAULT", () -> noTextMore("glow ;")), "FULL", x -> x.text(), FULL);
+        refused(new Made("an empty TAPE", () -> noTextMore("")), "FULL", x -> x.text(), FULL);
+
+        says("A TEXT is THE LAW: which was. BAD.");
+        bounds(WHOLE, "t", 0, 2, BAD, v -> x -> x.force(v));
+        bounds(NEW, "t", 0, 0, BAD, v -> x -> x.force(v));
+        bounds(ALL, "t", 0, 5, BAD, v -> x -> x.force(v));
+    }
+
+    // ---- houses
+
+    private static void wired() {
+        says("BAD: SHEET; -11; BAD: its size, a number; FULL.");
+        bounds(SHEETED, "s", 0, 3, BAD, v -> x -> x.house(v));
+        refused(ALL, "no SHEET", x -> x.house(4), BAD);
+        refused(ALL, "missing, -11 ahead of FULL", x -> x.house(3), -11);
+        refused(ALL, "size, BAD ahead of FULL", x -> x.house(1), BAD);
+        refused(ALL, "number, BAD ahead of FULL", x -> x.house(2), BAD);
+        refused(ALL, "FULL", x -> x.house(0), FULL);
+        refused(WHOLE, "missing", x -> x.house(3), -11);
+        refused(WHOLE, "size and numbers", x -> x.house(2), BAD);
+
+        says("BAD: year; what house() refuses of the SHEET; FULL.");
+        bounds(WHOLE, "y", 1, 9999, BAD, v -> x -> x.label(v, 0));
+        bounds(SHEETED, "s", 0, 3, BAD, v -> x -> x.label(1, v));
+        refused(ALL, "year and SHEET", x -> x.label(0, 4), BAD);
+        refused(ALL, "year, BAD ahead of -11", x -> x.label(0, 3), BAD);
+        refused(ALL, "year, BAD ahead of FULL", x -> x.label(10000, 0), BAD);
+        refused(ALL, "missing, -11 ahead of FULL", x -> x.label(1, 3), -11);
+        refused(ALL, "size, BAD ahead of FULL", x -> x.label(1, 1), BAD);
+        refused(ALL, "number, BAD ahead of FULL", x -> x.label(1, 2), BAD);
+        refused(ALL, "FULL", x -> x.label(1, 0), FULL);
+        refused(WHOLE, "missing", x -> x.label(1, 3), -11);
+        refused(WHOLE, "size and numbers", x -> x.label(1, 2), BAD);
+    }
+
+    private static void houses() {
+        says("The FUSE that feeds a LAMP in a HOUSE. -5.");
+        bounds(WHOLE, "h", 0, 2, -5, v -> x -> x.fedBy(v, 0));
+        bounds(WHOLE, "l", 0, 4, -5, v -> x -> x.fedBy(0, v));
+        refused(WHOLE, "both", x -> x.fedBy(3, 5), -5);
+
+        says("LAMPS (bits) that are LIT in a HOUSE, as all is now. -5: no such HOUSE.");
+        bounds(WHOLE, "h", 0, 2, -5, v -> x -> x.show(v));
+        bounds(ALL, "h", 0, 11, -5, v -> x -> x.show(v));
+
+        says("How BRIGHT a LAMP is in a HOUSE as all is now (0: not LIT). -5.");
+        bounds(WHOLE, "h", 0, 2, -5, v -> x -> x.bright(v, 0));
+        bounds(WHOLE, "l", 0, 4, -5, v -> x -> x.bright(0, v));
+        refused(WHOLE, "both", x -> x.bright(3, 5), -5);
+
+        says("How BRIGHT all LAMPS of a ROOM are together. -5: no such HOUSE; -7: ROOM.");
+        bounds(WHOLE, "h", 0, 2, -5, v -> x -> x.room(v, 0));
+        bounds(WHOLE, "r", 0, 5, -7, v -> x -> x.room(0, v));
+        refused(WHOLE, "-5 ahead of -7", x -> x.room(3, 6), -5);
+
+        says("would change nothing of what is LIT now. -5: no such HOUSE.");
+        bounds(WHOLE, "h", 0, 2, -5, v -> x -> x.nothing(v));
+    }
+
+    // ---- asks
+
+    private static void asks() {
+        says("with LAMPS (bits, all there) that were seen: its number. BAD; FULL.");
+        bounds(WHOLE, "rooms", 0, 63, BAD, v -> x -> x.ask(v, 0));
+        bounds(WHOLE, "seen", 0, 31, BAD, v -> x -> x.ask(63, v));
+        bounds(WHOLE, "seen in no ROOM", 0, 0, BAD, v -> x -> x.ask(0, v));
+        refused(WHOLE, "a LAMP elsewhere", x -> x.ask(1, 2), BAD);
+        refused(WHOLE, "a LAMP elsewhere, too", x -> x.ask(1, 3), BAD);
+        refused(ALL, "ROOMS, BAD ahead of FULL", x -> x.ask(64, 0), BAD);
+        refused(ALL, "LAMPS, BAD ahead of FULL", x -> x.ask(63, 1024), BAD);
+        refused(ALL, "FULL", x -> x.ask(63, 1023), FULL);
+
+        says("The latest ASK is none any more: how many there are. STATE: there is none.");
+        refused(NEW, "forget", x -> x.forget(), STATE);
+        refused(LAMPS, "forget", x -> x.forget(), STATE);
+
+        says("LAMPS (bits) in which a HOUSE is AMISS in an ASK. -5: no such HOUSE; -7: ASK.");
+        bounds(WHOLE, "h", 0, 2, -5, v -> x -> x.amiss(v, 0));
+        bounds(WHOLE, "k", 0, 1, -7, v -> x -> x.amiss(0, v));
+        bounds(ALL, "k", 0, 9, -7, v -> x -> x.amiss(0, v));
+        refused(WHOLE, "-5 ahead of -7", x -> x.amiss(3, 2), -5);
+
+        says("How many in all ASKS together. -5: no such HOUSE.");
+        bounds(WHOLE, "h", 0, 2, -5, v -> x -> x.miss(v));
+
+        says("HOUSES (bits) that are AMISS in no more than most (0 .. 999) by miss(). BAD.");
+        bounds(WHOLE, "most", 0, 999, BAD, v -> x -> x.near(v));
+    }
+
+    private static void parting() {
+        says("how many the greatest has (1; 0). BAD.");
+        bounds(WHOLE, "outs", 0, 7, BAD, v -> x -> x.parts(v, 63, 0));
+        bounds(WHOLE, "rooms", 0, 63, BAD, v -> x -> x.parts(0, v, 0));
+        bounds(WHOLE, "what", 0, 1, BAD, v -> x -> x.parts(0, 63, v));
+        bounds(NEW, "outs of no FUSES", 0, 0, BAD, v -> x -> x.parts(v, 63, 0));
+
+        says("how many the greatest KIND has (1). BAD; NONE: none is LET.");
+        bounds(WHOLE, "rooms", 0, 63, BAD, v -> x -> x.next(v, 1, 0));
+        bounds(WHOLE, "most", 0, 6, BAD, v -> x -> x.next(63, v, 0));
+        bounds(WHOLE, "what", 0, 1, BAD, v -> x -> x.next(63, 1, v));
+        answered(NONE_LET, "lets", x -> x.lets(), 0);
+        refused(NONE_LET, "rooms, BAD ahead of NONE", x -> x.next(64, 1, 0), BAD);
+        refused(NONE_LET, "most, BAD ahead of NONE", x -> x.next(63, 7, 0), BAD);
+        refused(NONE_LET, "what, BAD ahead of NONE", x -> x.next(63, 1, 2), BAD);
+        refused(NONE_LET, "NONE", x -> x.next(63, 1, 0), NONE);
+        refused(NEW, "NONE", x -> x.next(63, 1, 1), NONE);
+
+        says("how many are left at most (1). BAD; NONE: none is LET.");
+        bounds(WHOLE, "rooms", 0, 63, BAD, v -> x -> x.ahead(v, 0));
+        bounds(WHOLE, "what", 0, 1, BAD, v -> x -> x.ahead(63, v));
+        refused(NONE_LET, "rooms, BAD ahead of NONE", x -> x.ahead(64, 0), BAD);
+        refused(NONE_LET, "what, BAD ahead of NONE", x -> x.ahead(63, -1), BAD);
+        refused(NONE_LET, "NONE", x -> x.ahead(63, 0), NONE);
+        refused(NEW, "NONE", x -> x.ahead(63, 1), NONE);
+
+        says("-1: it isn't LET, or NEXT leaves all. -5: no such HOUSE; -7: ROOMS, most.");
+        bounds(WHOLE, "h", 0, 2, -5, v -> x -> x.plan(v, 63, 1));
+        bounds(WHOLE, "rooms", 0, 63, -7, v -> x -> x.plan(0, v, 1));
+        bounds(WHOLE, "most", 0, 6, -7, v -> x -> x.plan(0, 63, v));
+        refused(WHOLE, "-5 ahead of -7", x -> x.plan(3, 64, 7), -5);
+        refused(NONE_LET, "ROOMS, -7 ahead of -1", x -> x.plan(0, 64, 1), -7);
+        refused(NONE_LET, "most, -7 ahead of -1", x -> x.plan(0, 63, 7), -7);
+        answered(NONE_LET, "-1", x -> x.plan(0, 63, 1), -1);
+    }
+
+    private static void sure() {
+        says("-1: they differ. -5: no such LAMP; STATE: none is LET.");
+        bounds(WHOLE, "l", 0, 4, -5, v -> x -> x.sure(v));
+        refused(NONE_LET, "-5 ahead of STATE", x -> x.sure(5), -5);
+        refused(NONE_LET, "STATE", x -> x.sure(0), STATE);
+
+        says("with some FUSES (bits) OUT. -5: no such LAMP; -7: FUSES.");
+        bounds(WHOLE, "l", 0, 4, -5, v -> x -> x.live(v, 0));
+        bounds(WHOLE, "outs", 0, 7, -7, v -> x -> x.live(0, v));
+        bounds(ALL, "outs", 0, 63, -7, v -> x -> x.live(0, v));
+        refused(WHOLE, "-5 ahead of -7", x -> x.live(5, 8), -5);
+
+        says("with which OUT live() is 0. -5: no such LAMP.");
+        bounds(WHOLE, "l", 0, 4, -5, v -> x -> x.dead(v));
+    }
+
+    // ---- lamps of unlike strength, labels, walls
+
+    private static void strengths() {
+        says("How many unlike SUMS a ROOM has (of no LAMP, too: 0). BAD.");
+        bounds(WHOLE, "r", 0, 5, BAD, v -> x -> x.sums(v));
+
+        says("with a SUM (0 .. 9999). BAD; NONE: none; STATE: there are two and more.");
+        bounds(WHOLE, "r", 0, 5, BAD, v -> x -> x.which(v, 0));
+        bounds(WHOLE, "sum", 0, 9999, BAD, v -> x -> x.which(0, v));
+        refused(WHOLE, "both", x -> x.which(6, 10000), BAD);
+        refused(WHOLE, "NONE", x -> x.which(0, 5), NONE);
+        Made two = new Made("two LAMPS of 5", () -> {
+            WhichSwitch x = new WhichSwitch();
+            x.lamp(0, 5, 0, 0);
+            x.lamp(0, 5, 0, 0);
+            return x;
+        });
+        refused(two, "STATE", x -> x.which(0, 5), STATE);
+        refused(two, "BAD", x -> x.which(0, -5), BAD);
+
+        says("100 times the LAMP, and that; -1: none. BAD.");
+        bounds(WHOLE, "r", 0, 5, BAD, v -> x -> x.put(v));
+        answered(WHOLE, "-1", x -> x.put(5), -1);
+    }
+
+    private static void labels() {
+        says("For how many LAMPS a LABEL tells the FUSE that feeds it in a HOUSE. -5.");
+        bounds(WHOLE, "k", 0, 1, -5, v -> x -> x.agree(v, 0));
+        bounds(ALL, "k", 0, 3, -5, v -> x -> x.agree(v, 0));
+        bounds(WHOLE, "h", 0, 2, -5, v -> x -> x.agree(0, v));
+        refused(WHOLE, "both", x -> x.agree(2, 3), -5);
+
+        says("(0 by 1, if there are none). NO: LABEL, part.");
+        bounds(WHOLE, "k", 0, 1, NO, v -> x -> x.odds(v, 0));
+        bounds(WHOLE, "part", 0, 1, NO, v -> x -> x.odds(0, v));
+        refused(WHOLE, "both", x -> x.odds(2, 2), NO);
+
+        says("BAD: SHEET, ROOM, what; -11; BAD: its size, a number.");
+        bounds(SHEETED, "s", 0, 3, BAD, v -> x -> x.wall(v, 0, 0));
+        bounds(WHOLE, "r", 0, 5, BAD, v -> x -> x.wall(0, v, 0));
+        bounds(WHOLE, "what", 0, 1, BAD, v -> x -> x.wall(0, 0, v));
+        refused(WHOLE, "ROOM, BAD ahead of -11", x -> x.wall(3, 6, 0), BAD);
+        refused(WHOLE, "what, BAD ahead of -11", x -> x.wall(3, 0, 2), BAD);
+        refused(WHOLE, "-11", x -> x.wall(3, 0, 0), -11);
+        int[] sizes = {0, 31, 40};
+        for (int size : sizes) {
+            Made sized = new Made("a SHEET of " + size, () -> {
+                WhichSwitch x = new WhichSwitch();
+                x.sheet(0, 2, size);
+                return x;
+            });
+            refused(sized, "its size", x -> x.wall(0, 0, 0), BAD);
+        }
+        int[] numbers = {-1, 1000, MIN, MAX};
+        for (int number : numbers) {
+            Made told = new Made("a SHEET with " + number, () -> {
+                WhichSwitch x = new WhichSwitch();
+                row(x, 0, 2, 0, 999, number);
+                return x;
+            });
+            refused(told, "a number", x -> x.wall(0, 0, 0), BAD);
         }
     }
 
-    private static void houseBounds() {
-        by("sheeted", RefusalsTest::sheeted);
-        bounds("house: s", 0, 3, BAD, v -> x -> x.house(v));
-        by("whole", RefusalsTest::whole);
-        bounds("fedBy: h", 0, 2, -5, v -> x -> x.fedBy(v, 0));
-        bounds("fedBy: l", 0, 4, -5, v -> x -> x.fedBy(0, v));
-        bounds("show: h", 0, 2, -5, v -> x -> x.show(v));
-        bounds("bright: h", 0, 2, -5, v -> x -> x.bright(v, 0));
-        bounds("bright: l", 0, 4, -5, v -> x -> x.bright(0, v));
-        bounds("room: h", 0, 2, -5, v -> x -> x.room(v, 0));
-        bounds("room: r", 0, 5, -7, v -> x -> x.room(0, v));
-        bounds("nothing: h", 0, 2, -5, v -> x -> x.nothing(v));
+    // ---- one thing broken, loads
+
+    private static void broken() {
+        says("just these LAMPS (bits, all there) being seen LIT");
+        bounds(WHOLE, "seen", 0, 31, -7, v -> x -> x.broken(0, 63, v));
+        refused(WHOLE, "a LAMP elsewhere", x -> x.broken(0, 1, 2), -7);
+        refused(WHOLE, "a LAMP elsewhere, too", x -> x.broken(0, 1, 3), -7);
+        refused(WHOLE, "a LAMP and no ROOM", x -> x.broken(0, 0, 1), -7);
+
+        says("it would. -5: no such HOUSE; -7: ROOMS, LAMPS.");
+        bounds(WHOLE, "h", 0, 2, -5, v -> x -> x.broken(v, 63, 0));
+        bounds(WHOLE, "rooms", 0, 63, -7, v -> x -> x.broken(0, v, 0));
+        refused(WHOLE, "ROOMS, -5 ahead of -7", x -> x.broken(3, 64, 0), -5);
+        refused(WHOLE, "LAMPS, -5 ahead of -7", x -> x.broken(3, 63, 32), -5);
     }
 
-    private static void askBounds() {
-        by("whole", RefusalsTest::whole);
-        bounds("ask: rooms", 0, 63, BAD, v -> x -> x.ask(v, 0));
-        bounds("ask: seen", 0, 31, BAD, v -> x -> x.ask(63, v));
-        bounds("amiss: h", 0, 2, -5, v -> x -> x.amiss(v, 0));
-        bounds("amiss: k", 0, 1, -7, v -> x -> x.amiss(0, v));
-        bounds("miss: h", 0, 2, -5, v -> x -> x.miss(v));
-        bounds("near: most", 0, 999, BAD, v -> x -> x.near(v));
-        bounds("parts: outs", 0, 7, BAD, v -> x -> x.parts(v, 63, 0));
-        bounds("parts: rooms", 0, 63, BAD, v -> x -> x.parts(0, v, 0));
-        bounds("parts: what", 0, 1, BAD, v -> x -> x.parts(0, 63, v));
-        bounds("next: rooms", 0, 63, BAD, v -> x -> x.next(v, 1, 0));
-        bounds("next: most", 0, 6, BAD, v -> x -> x.next(63, v, 0));
-        bounds("next: what", 0, 1, BAD, v -> x -> x.next(63, 1, v));
-        bounds("ahead: rooms", 0, 63, BAD, v -> x -> x.ahead(v, 0));
-        bounds("ahead: what", 0, 1, BAD, v -> x -> x.ahead(63, v));
-        bounds("plan: h", 0, 2, -5, v -> x -> x.plan(v, 63, 1));
-        bounds("plan: rooms", 0, 63, -7, v -> x -> x.plan(0, v, 1));
-        bounds("plan: most", 0, 6, -7, v -> x -> x.plan(0, 63, v));
-        bounds("sure: l", 0, 4, -5, v -> x -> x.sure(v));
-        bounds("live: l", 0, 4, -5, v -> x -> x.live(v, 0));
-        bounds("live: outs", 0, 7, -7, v -> x -> x.live(0, v));
-        bounds("dead: l", 0, 4, -5, v -> x -> x.dead(v));
+    private static void loads() {
+        says("together (a BORROWED one by its own). -5.");
+        bounds(WHOLE, "h", 0, 2, -5, v -> x -> x.load(v, 0));
+        bounds(WHOLE, "f", 0, 2, -5, v -> x -> x.load(0, v));
+        refused(WHOLE, "both", x -> x.load(3, 3), -5);
+
+        says("FUSES (bits) whose load() is more than BEARS. -5: no such HOUSE.");
+        bounds(WHOLE, "h", 0, 2, -5, v -> x -> x.over(v));
+
+        says("no FUSE being OUT, at THE HOUR. -5.");
+        bounds(WHOLE, "h", 0, 2, -5, v -> x -> x.thick(v, 0));
+        bounds(WHOLE, "f", 0, 2, -5, v -> x -> x.thick(0, v));
+        refused(WHOLE, "both", x -> x.thick(3, 3), -5);
+
+        says("load() of all FUSES together. -5: no such HOUSE.");
+        bounds(WHOLE, "h", 0, 2, -5, v -> x -> x.meter(v));
+
+        says("no more than off (0 .. 999) from what is told (0 .. 99999). BAD.");
+        bounds(WHOLE, "told", 0, 99999, BAD, v -> x -> x.witness(v, 0));
+        bounds(WHOLE, "off", 0, 999, BAD, v -> x -> x.witness(0, v));
+
+        says("DARK (1). NO: none such.");
+        bounds(WHOLE, "h", 0, 2, NO, v -> x -> x.order(v, 0));
+        bounds(WHOLE, "what", 0, 1, NO, v -> x -> x.order(0, v));
+        refused(WHOLE, "both", x -> x.order(3, 2), NO);
     }
 
-    private static void otherBounds() {
-        by("whole", RefusalsTest::whole);
-        bounds("sums: r", 0, 5, BAD, v -> x -> x.sums(v));
-        bounds("which: r", 0, 5, BAD, v -> x -> x.which(v, 0));
-        bounds("which: sum", 0, 9999, BAD, v -> x -> x.which(0, v));
-        bounds("put: r", 0, 5, BAD, v -> x -> x.put(v));
-        bounds("label: y", 1, 9999, BAD, v -> x -> x.label(v, 0));
-        bounds("agree: k", 0, 1, -5, v -> x -> x.agree(v, 0));
-        bounds("agree: h", 0, 2, -5, v -> x -> x.agree(0, v));
-        bounds("odds: k", 0, 1, NO, v -> x -> x.odds(v, 0));
-        bounds("odds: part", 0, 1, NO, v -> x -> x.odds(0, v));
-        bounds("wall: r", 0, 5, BAD, v -> x -> x.wall(0, v, 0));
-        bounds("wall: what", 0, 1, BAD, v -> x -> x.wall(0, 0, v));
-        bounds("broken: h", 0, 2, -5, v -> x -> x.broken(v, 63, 0));
-        bounds("broken: rooms", 0, 63, -7, v -> x -> x.broken(0, v, 0));
-        bounds("broken: seen", 0, 31, -7, v -> x -> x.broken(0, 63, v));
-        bounds("load: h", 0, 2, -5, v -> x -> x.load(v, 0));
-        bounds("load: f", 0, 2, -5, v -> x -> x.load(0, v));
-        bounds("over: h", 0, 2, -5, v -> x -> x.over(v));
-        bounds("thick: h", 0, 2, -5, v -> x -> x.thick(v, 0));
-        bounds("thick: f", 0, 2, -5, v -> x -> x.thick(0, v));
-        bounds("meter: h", 0, 2, -5, v -> x -> x.meter(v));
-        bounds("witness: told", 0, 99999, BAD, v -> x -> x.witness(v, 0));
-        bounds("witness: off", 0, 999, BAD, v -> x -> x.witness(0, v));
-        bounds("order: h", 0, 2, NO, v -> x -> x.order(v, 0));
-        bounds("order: what", 0, 1, NO, v -> x -> x.order(0, v));
-        bounds("drawn: seed", 0, 99999, BAD, v -> x -> x.drawn(v, 63, 1));
-        bounds("drawn: rooms", 0, 63, BAD, v -> x -> x.drawn(0, v, 1));
-        bounds("drawn: what", 0, 1, BAD, v -> x -> x.drawn(0, 63, v));
-        by("sheeted", RefusalsTest::sheeted);
-        bounds("label: s", 0, 3, BAD, v -> x -> x.label(1, v));
-        bounds("wall: s", 0, 3, BAD, v -> x -> x.wall(v, 0, 0));
+    private static void drawn() {
+        says("as all is now (1). BAD; STATE: no HOUSES.");
+        bounds(WHOLE, "seed", 0, 99999, BAD, v -> x -> x.drawn(v, 63, 1));
+        bounds(WHOLE, "rooms", 0, 63, BAD, v -> x -> x.drawn(0, v, 1));
+        bounds(WHOLE, "what", 0, 1, BAD, v -> x -> x.drawn(0, 63, v));
+        refused(NEW, "SEED, BAD ahead of STATE", x -> x.drawn(100000, 0, 0), BAD);
+        refused(NEW, "ROOMS, BAD ahead of STATE", x -> x.drawn(0, 64, 0), BAD);
+        refused(NEW, "what, BAD ahead of STATE", x -> x.drawn(0, 0, 2), BAD);
+        refused(NEW, "STATE", x -> x.drawn(0, 0, 0), STATE);
+        refused(LAMPS, "STATE", x -> x.drawn(99999, 63, 1), STATE);
+
+        says("how many ASKS there are. STATE: there is none.");
+        refused(NEW, "back", x -> x.back(), STATE);
+        refused(LAMPS, "back", x -> x.back(), STATE);
     }
 
-    private static void hostBounds() {
-        by("sheeted", RefusalsTest::sheeted);
-        bounds("sheet: s", 0, 3, BAD, v -> x -> x.sheet(v, 0, 1));
-        bounds("sheet: sort", -1, 2, BAD, v -> x -> x.sheet(0, v, 1));
-        bounds("sheet: n", 0, 40, -14, BAD, v -> x -> x.sheet(0, 0, v));
-        bounds("cell: s", 0, 3, BAD, v -> x -> x.cell(v, 0, 2));
-        bounds("cell: i", 0, 4, -12, v -> x -> x.cell(0, v, 2));
-        bounds("copy: s", 0, 3, BAD, v -> x -> x.copy(v, 0, 0, 1, 4));
-        bounds("copy: i", 0, 4, -12, v -> x -> x.copy(0, v, 1, 0, 1));
-        bounds("copy: i of none", 0, 5, -12, v -> x -> x.copy(0, v, 1, 0, 0));
-        bounds("copy: other", 0, 3, BAD, v -> x -> x.copy(0, 0, v, 1, 4));
-        bounds("copy: j", 0, 4, -12, v -> x -> x.copy(0, 0, 1, v, 1));
-        bounds("copy: j of none", 0, 5, -12, v -> x -> x.copy(0, 0, 1, v, 0));
-        bounds("copy: n", 0, 5, -12, v -> x -> x.copy(0, 0, 1, 0, v));
-        bounds("copy: n from 2 on", 0, 3, -12, v -> x -> x.copy(0, 2, 1, 0, v));
-        bounds("copy: n to 2 on", 0, 3, -12, v -> x -> x.copy(0, 0, 1, 2, v));
-        bounds("lampsBy: s", 0, 3, BAD, v -> x -> x.lampsBy(v, 2, 0, 1));
-        bounds("lampsBy: sort", 0, 2, BAD, v -> x -> x.lampsBy(0, v, 0, 1));
-        bounds("lampsBy: at", 0, 1, -12, v -> x -> x.lampsBy(0, 2, v, 1));
-        bounds("lampsBy: n", 0, 10, BAD, v -> x -> x.lampsBy(0, 2, 0, v));
-        bounds("taken: i", 0, 15, -12, v -> x -> x.taken(v, 0));
-        bounds("taken: kind", 0, 6, BAD, v -> x -> x.taken(0, v));
+    // ---- the host
+
+    private static void sheets() {
+        says("BAD: SHEET, sort, n above 40; -14.");
+        bounds(SHEETED, "s", 0, 3, BAD, v -> x -> x.sheet(v, 0, 1));
+        bounds(SHEETED, "sort", -1, 2, BAD, v -> x -> x.sheet(0, v, 1));
+        bounds(SHEETED, "n", 0, 40, -14, BAD, v -> x -> x.sheet(0, 0, v));
+        bounds(SHEETED, "n of shorts", 0, 40, -14, BAD, v -> x -> x.sheet(1, 1, v));
+        bounds(SHEETED, "n of ints", 0, 40, -14, BAD, v -> x -> x.sheet(2, 2, v));
+        refused(WHOLE, "SHEET, BAD ahead of -14", x -> x.sheet(4, 0, -1), BAD);
+        refused(WHOLE, "sort, BAD ahead of -14", x -> x.sheet(0, 3, -1), BAD);
+        refused(WHOLE, "SHEET to be missing", x -> x.sheet(4, -1, 0), BAD);
+        answered(WHOLE, "missing, n below 0", x -> x.sheet(0, -1, MIN), 1);
+        answered(WHOLE, "missing, n above 40", x -> x.sheet(0, -1, MAX), 1);
+
+        says("BAD: SHEET; -11; -12.");
+        bounds(SHEETED, "s", 0, 3, BAD, v -> x -> x.cell(v, 0, 2));
+        bounds(SHEETED, "i", 0, 4, -12, v -> x -> x.cell(0, v, 2));
+        refused(WHOLE, "BAD ahead of -12", x -> x.cell(4, -1, 0), BAD);
+        refused(WHOLE, "-11 ahead of -12", x -> x.cell(3, -1, 0), -11);
     }
 
-    // ---- of several the first one told
-
-    private static void toldOrders() {
-        by("full", RefusalsTest::full);
-        refused("fuse: BAD ahead of FULL, most", x -> x.fuse(1000, 1), BAD);
-        refused("fuse: BAD ahead of FULL, time", x -> x.fuse(0, 100), BAD);
-        refused("fuse: FULL", x -> x.fuse(0, 1), FULL);
-        refused("lamp: BAD ahead of FULL, kind", x -> x.lamp(6, 1, 0, 0), BAD);
-        refused("lamp: BAD ahead of FULL, power", x -> x.lamp(0, 0, 0, 0), BAD);
-        refused("lamp: BAD ahead of FULL, where", x -> x.lamp(0, 1, 600, 0), BAD);
-        refused("lamp: BAD ahead of FULL, more", x -> x.lamp(0, 1, 0, 10), BAD);
-        refused("lamp: FULL ahead of STATE", x -> x.lamp(0, 1, 0, 0), FULL);
-        refused("feed: BAD ahead of FULL", x -> x.feed(0, 9), BAD);
-        refused("feed: FULL", x -> x.feed(0, 1), FULL);
-        refused("text: FULL", x -> x.text(), FULL);
-        by("full, THE TAPE with a FAULT", () -> {
-            WhichSwitch x = new WhichSwitch();
-            for (int t = 1; t < 6; t++) {
-                text(x, "glow " + t + ";tone 1;load 1;");
-            }
-            feed(x, "glow ;");
-            return x;
-        });
-        refused("text: FULL ahead of the FAULT", x -> x.text(), FULL);
-        by("whole", RefusalsTest::whole);
-        refused("set: NONE ahead of BAD", x -> x.set(4, -1), NONE);
-        refused("set: NONE ahead of BAD, below", x -> x.set(-1, MAX), NONE);
-        refused("lamp: BAD ahead of STATE", x -> x.lamp(0, 1, 0, -1), BAD);
-        refused("lampTold: -5 ahead of -7", x -> x.lampTold(5, 6), -5);
-        by("a HOUSE alone", RefusalsTest::housed);
-        refused("lamp: STATE", x -> x.lamp(0, 1, 0, 0), STATE);
-        by("a LABEL alone", RefusalsTest::labelled);
-        refused("lamp: STATE", x -> x.lamp(0, 1, 0, 0), STATE);
-        by("an ASK alone", RefusalsTest::asked);
-        refused("lamp: STATE", x -> x.lamp(0, 1, 0, 0), STATE);
-        by("a TAPE of 159", () -> {
-            WhichSwitch x = new WhichSwitch();
-            feed(x, "glow 9;tone 9;load 9;" + " ".repeat(138));
-            return x;
-        });
-        refused("feed: FULL by the second of two", x -> x.feed(0, 2), FULL);
-        refused("feed: FULL by the last seven", x -> x.feed(0, 8), FULL);
-        answered("feed: the last", x -> x.feed(0, 1), 160);
+    private static void copies() {
+        says("BAD: SHEETS; -11; -13: unlike sorts; -12 (n below 0, too).");
+        bounds(SHEETED, "s", 0, 3, BAD, v -> x -> x.copy(v, 0, 0, 1, 4));
+        bounds(SHEETED, "other", 0, 3, BAD, v -> x -> x.copy(0, 0, v, 1, 4));
+        bounds(SHEETED, "i", 0, 4, -12, v -> x -> x.copy(0, v, 1, 0, 1));
+        bounds(SHEETED, "i of none", 0, 5, -12, v -> x -> x.copy(0, v, 1, 0, 0));
+        bounds(SHEETED, "j", 0, 4, -12, v -> x -> x.copy(0, 0, 1, v, 1));
+        bounds(SHEETED, "j of none", 0, 5, -12, v -> x -> x.copy(0, 0, 1, v, 0));
+        bounds(SHEETED, "n", 0, 5, -12, v -> x -> x.copy(0, 0, 1, 0, v));
+        bounds(SHEETED, "n from 2 on", 0, 3, -12, v -> x -> x.copy(0, 2, 1, 0, v));
+        bounds(SHEETED, "n to 2 on", 0, 3, -12, v -> x -> x.copy(0, 0, 1, 2, v));
+        refused(WHOLE, "SHEET, BAD ahead of -11", x -> x.copy(4, 0, 3, 0, 0), BAD);
+        refused(WHOLE, "other, BAD ahead of -11", x -> x.copy(3, 0, -1, 0, 0), BAD);
+        refused(WHOLE, "from a missing one, -11 ahead of -12", x -> x.copy(3, -1, 0, -1, -1), -11);
+        refused(WHOLE, "to a missing one, -11 ahead of -12", x -> x.copy(0, -1, 3, -1, -1), -11);
+        refused(WHOLE, "from a missing one to itself", x -> x.copy(3, 0, 3, 0, 0), -11);
+        refused(WHOLE, "ints to bytes, -13 ahead of -12", x -> x.copy(0, -1, 1, -1, -1), -13);
+        refused(WHOLE, "bytes to shorts", x -> x.copy(1, 0, 2, 0, 1), -13);
+        refused(WHOLE, "none of shorts to ints", x -> x.copy(2, 0, 0, 0, 0), -13);
+        refused(WHOLE, "n beyond an int", x -> x.copy(0, 1, 0, 1, MAX), -12);
+        refused(WHOLE, "i and n below 0", x -> x.copy(0, MAX, 0, 0, MIN), -12);
     }
 
-    private static void wiredOrders() {
-        by("full", RefusalsTest::full);
-        refused("house: BAD, no SHEET", x -> x.house(4), BAD);
-        refused("house: -11 ahead of FULL", x -> x.house(3), -11);
-        refused("house: BAD ahead of FULL, size", x -> x.house(1), BAD);
-        refused("house: BAD ahead of FULL, number", x -> x.house(2), BAD);
-        refused("house: FULL", x -> x.house(0), FULL);
-        refused("label: BAD, year and SHEET", x -> x.label(0, 4), BAD);
-        refused("label: BAD ahead of -11, year", x -> x.label(0, 3), BAD);
-        refused("label: BAD ahead of FULL, year", x -> x.label(10000, 0), BAD);
-        refused("label: -11 ahead of FULL", x -> x.label(1, 3), -11);
-        refused("label: BAD ahead of FULL, size", x -> x.label(1, 1), BAD);
-        refused("label: BAD ahead of FULL, number", x -> x.label(1, 2), BAD);
-        refused("label: FULL", x -> x.label(1, 0), FULL);
-        by("whole", RefusalsTest::whole);
-        refused("house: -11", x -> x.house(3), -11);
-        refused("house: BAD, size and number", x -> x.house(2), BAD);
-        refused("label: -11", x -> x.label(1, 3), -11);
-        refused("label: BAD, size and number", x -> x.label(1, 2), BAD);
-        refused("bright: -5 of both", x -> x.bright(3, 5), -5);
-        refused("fedBy: -5 of both", x -> x.fedBy(3, 5), -5);
-        refused("agree: -5 of both", x -> x.agree(2, 3), -5);
-        refused("load: -5 of both", x -> x.load(3, 3), -5);
-        refused("thick: -5 of both", x -> x.thick(3, 3), -5);
-        refused("odds: NO of both", x -> x.odds(2, 2), NO);
-        refused("order: NO of both", x -> x.order(3, 2), NO);
-        refused("room: -5 ahead of -7", x -> x.room(3, 6), -5);
-        refused("broken: -5 ahead of -7, ROOMS", x -> x.broken(3, 64, 0), -5);
-        refused("broken: -5 ahead of -7, LAMPS", x -> x.broken(3, 63, 32), -5);
-        refused("broken: -7, a LAMP elsewhere", x -> x.broken(0, 1, 2), -7);
-        refused("broken: -7, a LAMP beside", x -> x.broken(0, 1, 3), -7);
-        refused("broken: -7, a LAMP and no ROOM", x -> x.broken(0, 0, 1), -7);
+    private static void lampsBy() {
+        says("BAD: SHEET, sort, n; -11; -13; -12: what stood ahead came.");
+        bounds(SHEETED, "s", 0, 3, BAD, v -> x -> x.lampsBy(v, 2, 0, 1));
+        bounds(SHEETED, "sort", 0, 2, BAD, v -> x -> x.lampsBy(0, v, 0, 1));
+        bounds(SHEETED, "at", 0, 1, -12, v -> x -> x.lampsBy(0, 2, v, 1));
+        bounds(SHEETED, "n", 0, 10, BAD, v -> x -> x.lampsBy(0, 2, 0, v));
+        bounds(LAMPS, "at", 0, 4, -12, v -> x -> x.lampsBy(1, 0, v, 1));
+        refused(WHOLE, "sort, BAD ahead of -11", x -> x.lampsBy(3, 3, 0, 1), BAD);
+        refused(WHOLE, "sort of none, BAD ahead of -11", x -> x.lampsBy(3, -1, 0, 1), BAD);
+        refused(WHOLE, "n, BAD ahead of -11", x -> x.lampsBy(3, 0, 0, 11), BAD);
+        refused(WHOLE, "n, BAD ahead of -13", x -> x.lampsBy(0, 0, 0, -1), BAD);
+        refused(WHOLE, "-11 ahead of -12", x -> x.lampsBy(3, 2, -1, 1), -11);
+        refused(WHOLE, "-13 ahead of -12", x -> x.lampsBy(0, 1, -1, 1), -13);
+        refused(WHOLE, "-12", x -> x.lampsBy(0, 2, -1, 1), -12);
+        List<Long> two = Observed.of(RefusalsTest::lamps, x -> x.lampsBy(1, 0, 0, 2));
+        List<Long> three = Observed.of(RefusalsTest::lamps, x -> x.lampsBy(1, 0, 0, 3));
+        answered(LAMPS, "the third of two", x -> x.lampsBy(1, 0, 0, 3), -12);
+        due("whether what came is as of two", two.equals(three) ? 1 : 0, 1);
+        due("whether anything came", two.equals(LAMPS.seen) ? 0 : 1, 1);
     }
 
-    private static void askOrders() {
-        by("full", RefusalsTest::full);
-        refused("ask: BAD ahead of FULL, ROOMS", x -> x.ask(64, 0), BAD);
-        refused("ask: BAD ahead of FULL, LAMPS", x -> x.ask(63, 1024), BAD);
-        refused("ask: FULL", x -> x.ask(63, 1023), FULL);
-        by("whole", RefusalsTest::whole);
-        refused("ask: BAD, a LAMP elsewhere", x -> x.ask(1, 2), BAD);
-        refused("ask: BAD, a LAMP beside", x -> x.ask(1, 3), BAD);
-        refused("ask: BAD, a LAMP and no ROOM", x -> x.ask(0, 1), BAD);
-        refused("amiss: -5 ahead of -7", x -> x.amiss(3, 2), -5);
-        refused("live: -5 ahead of -7", x -> x.live(5, 8), -5);
-        refused("plan: -5 ahead of -7", x -> x.plan(3, 64, 7), -5);
-        by("none is LET", RefusalsTest::noneLet);
-        answered("lets", x -> x.lets(), 0);
-        refused("next: BAD ahead of NONE, rooms", x -> x.next(64, 1, 0), BAD);
-        refused("next: BAD ahead of NONE, most", x -> x.next(63, 7, 0), BAD);
-        refused("next: BAD ahead of NONE, what", x -> x.next(63, 1, 2), BAD);
-        refused("next: NONE", x -> x.next(63, 1, 0), NONE);
-        refused("next: NONE", x -> x.next(0, 0, 1), NONE);
-        refused("ahead: BAD ahead of NONE, rooms", x -> x.ahead(64, 0), BAD);
-        refused("ahead: BAD ahead of NONE, what", x -> x.ahead(63, -1), BAD);
-        refused("ahead: NONE", x -> x.ahead(63, 0), NONE);
-        refused("plan: -7 ahead of -1, ROOMS", x -> x.plan(0, 64, 1), -7);
-        refused("plan: -7 ahead of -1, most", x -> x.plan(0, 63, 7), -7);
-        answered("plan: -1", x -> x.plan(0, 63, 1), -1);
-        refused("sure: -5 ahead of STATE", x -> x.sure(5), -5);
-        refused("sure: STATE", x -> x.sure(0), STATE);
-        by("a new one", RefusalsTest::bare);
-        refused("forget: STATE", x -> x.forget(), STATE);
-        refused("back: STATE", x -> x.back(), STATE);
-        refused("next: NONE", x -> x.next(63, 1, 0), NONE);
-        refused("ahead: NONE", x -> x.ahead(63, 1), NONE);
-        refused("drawn: BAD ahead of STATE, SEED", x -> x.drawn(100000, 0, 0), BAD);
-        refused("drawn: BAD ahead of STATE, ROOMS", x -> x.drawn(0, 64, 0), BAD);
-        refused("drawn: BAD ahead of STATE, what", x -> x.drawn(0, 0, 2), BAD);
-        refused("drawn: STATE", x -> x.drawn(0, 0, 0), STATE);
-        refused("drawn: STATE", x -> x.drawn(99999, 63, 1), STATE);
+    private static void taken() {
+        says("BAD: kind; -12: i; -11: nothing lies there; -13.");
+        bounds(SHEETED, "i", 0, 15, -12, v -> x -> x.taken(v, 0));
+        bounds(SHEETED, "kind", 0, 6, BAD, v -> x -> x.taken(0, v));
+        refused(WHOLE, "BAD ahead of -12", x -> x.taken(16, 7), BAD);
+        refused(WHOLE, "BAD ahead of -11", x -> x.taken(3, -1), BAD);
+        refused(WHOLE, "no FUSE, -11 ahead of -13", x -> x.taken(3, 0), -11);
+        refused(WHOLE, "no LAMP, -11 ahead of -13", x -> x.taken(11, 6), -11);
+        refused(WHOLE, "a FUSE as a LAMP", x -> x.taken(2, 0), -13);
+        refused(WHOLE, "a LAMP as a FUSE", x -> x.taken(10, 6), -13);
     }
 
-    private static void hostOrders() {
-        by("whole", RefusalsTest::whole);
-        refused("sheet: BAD ahead of -14, SHEET", x -> x.sheet(4, 0, -1), BAD);
-        refused("sheet: BAD ahead of -14, sort", x -> x.sheet(0, 3, -1), BAD);
-        refused("sheet: BAD, SHEET to be missing", x -> x.sheet(4, -1, 0), BAD);
-        answered("sheet: n of none below 0", x -> x.sheet(0, -1, MIN), 1);
-        answered("sheet: n of none above 40", x -> x.sheet(0, -1, MAX), 1);
-        refused("cell: BAD ahead of -12", x -> x.cell(4, -1, 0), BAD);
-        refused("cell: -11 ahead of -12", x -> x.cell(3, -1, 0), -11);
-        refused("copy: BAD ahead of -11, SHEET", x -> x.copy(4, 0, 3, 0, 0), BAD);
-        refused("copy: BAD ahead of -11, other", x -> x.copy(3, 0, -1, 0, 0), BAD);
-        refused("copy: -11 ahead of -12, from", x -> x.copy(3, -1, 0, -1, -1), -11);
-        refused("copy: -11 ahead of -12, to", x -> x.copy(0, -1, 3, -1, -1), -11);
-        refused("copy: -13 ahead of -12, ints to bytes", x -> x.copy(0, -1, 1, -1, -1), -13);
-        refused("copy: -13, bytes to shorts", x -> x.copy(1, 0, 2, 0, 1), -13);
-        refused("copy: -13, of no numbers", x -> x.copy(2, 0, 0, 0, 0), -13);
-        refused("copy: -12, n beyond an int", x -> x.copy(0, 1, 0, 1, MAX), -12);
-        refused("copy: -12, i and n to 0", x -> x.copy(0, MAX, 0, 0, MIN), -12);
-        refused("lampsBy: BAD ahead of -11, sort", x -> x.lampsBy(3, 3, 0, 1), BAD);
-        refused("lampsBy: BAD ahead of -11, sort of none", x -> x.lampsBy(3, -1, 0, 1), BAD);
-        refused("lampsBy: BAD ahead of -11, n", x -> x.lampsBy(3, 0, 0, 11), BAD);
-        refused("lampsBy: BAD ahead of -13, n", x -> x.lampsBy(0, 0, 0, -1), BAD);
-        refused("lampsBy: -11 ahead of -12", x -> x.lampsBy(3, 2, -1, 1), -11);
-        refused("lampsBy: -13 ahead of -12", x -> x.lampsBy(0, 1, -1, 1), -13);
-        refused("lampsBy: -12", x -> x.lampsBy(0, 2, -1, 1), -12);
-        refused("taken: BAD ahead of -12", x -> x.taken(16, 7), BAD);
-        refused("taken: BAD ahead of -11", x -> x.taken(3, -1), BAD);
-        refused("taken: -11 ahead of -13, FUSE", x -> x.taken(3, 0), -11);
-        refused("taken: -11 ahead of -13, LAMP", x -> x.taken(11, 6), -11);
-        refused("taken: -13, FUSE", x -> x.taken(2, 0), -13);
-        refused("taken: -13, LAMP", x -> x.taken(10, 6), -13);
-        refused("wall: BAD ahead of -11, SHEET", x -> x.wall(4, 0, 0), BAD);
-        refused("wall: BAD ahead of -11, ROOM", x -> x.wall(3, 6, 0), BAD);
-        refused("wall: BAD ahead of -11, what", x -> x.wall(3, 0, 2), BAD);
-        refused("wall: -11", x -> x.wall(3, 0, 0), -11);
-        refused("which: BAD of both", x -> x.which(6, 10000), BAD);
-        refused("which: NONE", x -> x.which(0, 5), NONE);
+    /** One call for each number that a refusal has. */
+    private static void numbers() {
+        says("NONE there is no such thing; BAD a number is not as told; STATE as told; FULL.");
+        refused(ALL, "no such thing", x -> x.set(4, 0), -1);
+        refused(ALL, "not as told", x -> x.set(2, 24), -2);
+        refused(NEW, "as told", x -> x.forget(), -3);
+        refused(ALL, "full", x -> x.fuse(1, 1), -4);
+
+        says("The host's: -11 nothing there, -12 a place outside, -13 of another sort or KIND, -14 a size below 0.");
+        refused(NEW, "nothing there", x -> x.cell(0, 0, 0), -11);
+        refused(WHOLE, "a place outside", x -> x.cell(0, 5, 0), -12);
+        refused(WHOLE, "of another sort", x -> x.lampsBy(0, 0, 0, 1), -13);
+        refused(WHOLE, "of another KIND", x -> x.taken(6, 1), -13);
+        refused(WHOLE, "a size below 0", x -> x.sheet(0, 2, -1), -14);
     }
 
     // ---- what is asked changes nothing
 
-    private static void questionsOf(String madeName, Supplier<WhichSwitch> one) {
-        by(madeName, one);
+    private static void questions(Made on) {
         String[] names = {"count", "lampTold", "fedBy", "show", "bright", "room", "nothing", "amiss", "miss", "lets",
             "likeliest", "near", "parts", "next", "ahead", "plan", "bound", "sure", "grey", "live", "dead", "touch",
             "sums", "which", "put", "agree", "right", "odds", "wall", "broken", "load", "over", "thick", "meter",
@@ -485,13 +640,13 @@ public final class RefusalsTest extends Checks {
             x -> x.lampsBy(0, 2, 0, 0)};
         due("names", names.length, calls.length);
         for (int i = 0; i < calls.length; i++) {
-            changesNothing(names[i], calls[i]);
+            changesNothing(on, names[i], calls[i]);
         }
     }
 
-    /** Calls that do change something must be seen to do so: else nothing that was seen above would tell anything. */
+    /** Calls that do change something must be seen to do so: else nothing that is seen would tell anything. */
     private static void changesAreSeen() {
-        by("whole", RefusalsTest::whole);
+        about("what changes is seen");
         String[] names = {"fuse", "OUT", "ON", "THE HOUR", "SLIPS", "feed", "text", "force", "house", "label", "ask",
             "forget", "image", "back", "sheet", "cell", "copy", "a byte's cell", "a short's cell"};
         Call[] calls = {x -> x.fuse(1, 1), x -> x.set(0, 3), x -> x.set(1, 2), x -> x.set(2, 1), x -> x.set(3, 99),
@@ -499,32 +654,40 @@ public final class RefusalsTest extends Checks {
             x -> x.forget(), x -> x.image(), x -> x.back(), x -> x.sheet(3, 0, 0), x -> x.cell(0, 1, 2),
             x -> x.copy(0, 0, 0, 1, 2), x -> x.cell(1, 1, 8), x -> x.cell(2, 0, 8)};
         due("names", names.length, calls.length);
-        List<Long> before = Observed.of(maker, x -> { });
         for (int i = 0; i < calls.length; i++) {
-            due("whether " + names[i] + " is seen", Observed.of(maker, calls[i]::of).equals(before) ? 0 : 1, 1);
+            List<Long> after = Observed.of(WHOLE.maker, calls[i]::of);
+            due("whether " + names[i] + " is seen", after.equals(WHOLE.seen) ? 0 : 1, 1);
         }
-        List<Long> noLamp = Observed.of(RefusalsTest::lamps, x -> { });
-        List<Long> oneMore = Observed.of(RefusalsTest::lamps, x -> x.lamp(0, 1, 0, 0));
-        due("whether lamp is seen", noLamp.equals(oneMore) ? 0 : 1, 1);
+        List<Long> oneMore = Observed.of(LAMPS.maker, x -> x.lamp(0, 1, 0, 0));
+        due("whether lamp is seen", oneMore.equals(LAMPS.seen) ? 0 : 1, 1);
     }
 
     public static void main(String[] args) {
+        says("REFUSALS, of several the first one told (a -1 that is an answer comes behind the refusal of a number)");
         says("They change nothing.");
         changesAreSeen();
-        toldBounds();
-        houseBounds();
-        askBounds();
-        otherBounds();
-        hostBounds();
-        says("REFUSALS, of several the first one told (a -1 that is an answer comes behind the refusal of a number)");
-        toldOrders();
-        wiredOrders();
-        askOrders();
-        hostOrders();
+        numbers();
+        fuses();
+        lampsTold();
+        texts();
+        wired();
+        houses();
+        asks();
+        parting();
+        sure();
+        strengths();
+        labels();
+        broken();
+        loads();
+        drawn();
+        sheets();
+        copies();
+        lampsBy();
+        taken();
         says("What is asked changes nothing, but where it is told.");
-        questionsOf("whole", RefusalsTest::whole);
-        questionsOf("full", RefusalsTest::full);
-        questionsOf("none is LET", RefusalsTest::noneLet);
+        questions(WHOLE);
+        questions(ALL);
+        questions(NONE_LET);
         end("the refusals");
     }
 }
