@@ -884,6 +884,8 @@ public final class EdgesTest extends Checks {
         due("no such FUSE", x.thick(0, 2), -5);
         due("no such HOUSE", x.thick(1, 0), -5);
         for (int i = 0; i < 8; i++) {
+            due("SWITCH " + i + " as X alone", oneLamp(0, 10 * i).thick(0, 0), 7);
+            due("SWITCH " + i + " and SWITCH 0 of a STAIR", oneLamp(2, i).thick(0, 0), i == 0 ? 0 : 7);
             WhichSwitch z = fused(1);
             int second = (i + 1) % 8;
             int third = (i + 2) % 8;
@@ -913,6 +915,13 @@ public final class EdgesTest extends Checks {
         due("some of all", y.thick(0, 0), strongest());
         law(y, "glow 0;tone 0;load 0;");
         due("nothing", y.thick(0, 0), 0);
+    }
+
+    private static WhichSwitch oneLamp(int kind, int where) {
+        WhichSwitch x = fused(1);
+        x.lamp(kind, 7, where, 0);
+        house(x, 0);
+        return x;
     }
 
     /** The last of thick() by all sets of SWITCHES: LAMPS 0 .. 7 have one each, LAMP 8 the first, LAMP 9 the last. */

@@ -651,6 +651,18 @@ public final class TermsTest extends Checks {
         due("the last", x.force(5), 0);
         due("no such", x.force(6), BAD);
 
+        about("five TEXTS of 159 bytes each, and as many FAULTS");
+        x = oneOf(4, 0, 0);
+        for (int t = 1; t < 6; t++) {
+            String many = "+ 1".repeat(46);
+            due("a FAULT", text(x, "glow " + t + many + ";tone 1;load 1"), -258);
+            due("a TEXT", text(x, "glow " + t + many + ";tone 1;load 1;"), t);
+        }
+        for (int t = 1; t < 6; t++) {
+            x.force(t);
+            due("what TEXT " + t + " says", x.bright(0, 0), t + 46);
+        }
+
         says("TEXT 0, at first, and THE LAW: glow power ; tone 90 - far * 7 ; load power + more ;");
         x = fused(1);
         x.lamp(4, 99, 500, 9);
