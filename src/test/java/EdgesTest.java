@@ -471,6 +471,9 @@ public final class EdgesTest extends Checks {
         due("two LAMPS by one FUSE each", x.next(1, 1, 1), 2);
         due("two FUSES", x.next(1, 2, 1), 1);
         due("the least two", x.next(1, 2, 0), 17);
+        x = ofOne(2, 0, 0, 0, 0, 0, 0, 0, 0, 0, 0, 0, 1);
+        due("one of twelve parted from the others", x.next(1, 1, 0), 1);
+        due("one of twelve parted from the others", x.next(1, 1, 1), 11);
 
         says("BAD; NONE: none is LET.");
         x = ofOne(1, 0);
@@ -490,6 +493,12 @@ public final class EdgesTest extends Checks {
         due("no ROOM", ofOne(6, 3, 4).ahead(0, 1), 2);
         due("twelve", ofOne(6, 0, 1, 2, 3, 4, 5, 0, 1, 2, 3, 4, 5).ahead(63, 1), 4);
         due("twelve", ofOne(6, 0, 1, 2, 3, 4, 5, 0, 1, 2, 3, 4, 5).ahead(63, 0), 3);
+        x = ofOne(3, 2, 0, 1, 2, 2);
+        x.set(0, 4);
+        x.ask(1, 1);
+        due("HOUSES 1, 2 are LET", x.lets(), 6);
+        due("three like ones that aren't LET", x.ahead(63, 0), 0);
+        due("three like ones that aren't LET", x.ahead(63, 1), 1);
     }
 
     private static void plans() {
@@ -589,6 +598,9 @@ public final class EdgesTest extends Checks {
         y.ask(1, 7);
         due("none is LET", y.lets(), 0);
         due("none is LET", y.dead(0), 0);
+        WhichSwitch z = ofOne(6, 5, 5);
+        z.set(0, 32);
+        due("what is OUT now does not matter", z.dead(0), 32);
 
         says("LAMPS (bits) for which live() is 0 with what is OUT now.");
         due("none is LET", y.touch(), 7);
@@ -600,6 +612,12 @@ public final class EdgesTest extends Checks {
         due("both OUT", y.touch(), 7);
         y.set(0, 32);
         due("the lender OUT alone", y.touch(), 0);
+        WhichSwitch w = ofTwo(1, 10, 1);
+        w.set(0, 1);
+        due("each LAMP FED in another HOUSE", w.touch(), 0);
+        w.ask(1, 1);
+        due("one HOUSE alone is LET", w.lets(), 2);
+        due("FED in HOUSES alone that aren't LET", w.touch(), 2);
         due("no HOUSE", plain(1, 10).touch(), 1023);
     }
 
@@ -653,6 +671,12 @@ public final class EdgesTest extends Checks {
         due("two like ones and one: the second", strong(1, 5, 5).put(5), 102);
         due("ten", strong(1, 2, 3, 4, 5, 6, 7, 8, 9, 10).put(5), -1);
         due("the last LAMP", strong(1, 2, 4, 8, 16, 32, 32).put(5), 500 + 64);
+        due("its own POWER", strong(1).put(5), 1);
+        due("its own POWER", strong(2, 1).put(5), 2);
+        x = strong(3, 2);
+        x.lamp(0, 1, 400, 0);
+        due("LAMPS of another ROOM", x.put(5), 1);
+        due("LAMPS of another ROOM", x.put(4), 201);
     }
 
     // ---- promises 36 to 40

@@ -481,6 +481,13 @@ public final class TermsTest extends Checks {
         due("( not closed", glow("(1"), -107);
         due(") not opened", glow("1)"), -106);
         due("( ) of nothing", glow("()"), -106);
+        String[] halves = {"", "not", "-", "1 or", "1 and", "1 <", "1 =", "1 +", "1 -", "1 *", "1 * -", "1 or not"};
+        for (String half : halves) {
+            due("half of an E ahead of ;: " + half, glow(half + ";"), -105 - half.length());
+            due("half of an E ahead of ): " + half, glow("(" + half + ")"), -106 - half.length());
+            due("half of an E ahead of a KEY: " + half, glow("2 + (" + half + " tone"),
+                    -111 - half.length());
+        }
 
         says("NAMES: power row hour room more far.");
         due("power", glow("power"), 7);
@@ -502,6 +509,8 @@ public final class TermsTest extends Checks {
         due("the least less 1 is the greatest", glow("- (" + over + ") - 1 < 0"), 0);
         due("the least's - is itself", glow("- (" + over + ") = " + over), 1);
         due("twice that is 0", glow(over + " * 2 = 0"), 1);
+        due("that and that is 0", glow(over + " + " + over + " + 7"), 7);
+        due("the least less that is 0", glow("- (" + over + ") - " + over + " + 7"), 7);
         due("3 in the 19th power does not wrap", glow("2187 * 2187 * 243 < 0"), 0);
         due("3 in the 20th power wraps", glow("2187 * 2187 * 729 < 0"), 1);
         due("9998000100 is 1408065508", glow("9999 * 9999 * 100 = 1408 * 1000 * 1000 + 65 * 1000 + 508"), 1);
@@ -583,6 +592,8 @@ public final class TermsTest extends Checks {
     private static void faults() {
         says("the place of the first byte of the first TOKEN that can't stand there");
         due("the first of all", fault(";"), -100);
+        due("the second byte", fault(" ;"), -101);
+        due("the third byte", fault("  ;"), -102);
         due("behind blanks", fault(" \n ;"), -103);
         due("the first of two", fault("glow 1 1 ; ?"), -107);
         due("the first byte of a WORD", fault("glow 1 tone"), -107);
