@@ -45,11 +45,16 @@ public final class ReadmeTest extends Checks {
         return found("(\\b(?:BAD|FULL|STATE|NONE|NO)\\b|-(?:5|7|11|12|13|14)\\b)", in);
     }
 
+    private static List<String> ranges(String in) {
+        return found("(\\d+ \\.\\. \\d+)", in);
+    }
+
     private static void calls() {
         about("the calls of README.md");
         same("they are the face's, in its order", found("(?m)^\\| `((?:int|long) \\w+\\([^)]*\\))` \\|", readme),
                 found("(?m)^    public ((?:int|long) \\w+\\([^)]*\\));", doc));
         Map<String, String> promises = promises();
+        String terms = doc.substring(doc.indexOf("## Terms"), doc.indexOf("## Promise 1:"));
         int rows = 0;
         for (String row : found("(?m)^\\| `((?:int|long) .*) \\|$", readme)) {
             rows++;
@@ -57,6 +62,10 @@ public final class ReadmeTest extends Checks {
             String call = name(cells[0]);
             due(call + " has three cells", cells.length, 3);
             same("the refusals of " + call, refusals(cells[2]), refusals(promises.getOrDefault(call, "")));
+            List<String> ranges = ranges(terms + promises.getOrDefault(call, ""));
+            for (String range : ranges(row)) {
+                due(range + " is one of " + call, ranges.contains(range) ? 1 : 0, 1);
+            }
             same("a -1 as an answer of " + call, cells[1].contains("-1: "), promises.getOrDefault(call, "").contains("-1: "));
         }
         due("rows", rows, 54);
@@ -64,8 +73,9 @@ public final class ReadmeTest extends Checks {
 
     private static void numbers() {
         about("the numbers of README.md");
-        for (String range : found("(-?\\d+ \\.\\. \\d+)", readme)) {
-            due(range + " stands in the document", doc.contains(range) ? 1 : 0, 1);
+        List<String> ranges = ranges(doc);
+        for (String range : ranges(readme)) {
+            due(range + " stands in the document", ranges.contains(range) ? 1 : 0, 1);
         }
         for (String constant : found("(?m)^\\| `([A-Z]+)` -\\d \\|", readme)) {
             String value = found("\\| `" + constant + "` (-\\d) \\|", readme).get(0);
